@@ -276,6 +276,11 @@ public final class ShowPromisesTest {
         same("the cue stays", desk.state(3), 1);
         same("without changes", desk.cue(0, 6), 0);
         same("a group that has none left", desk.group(1, 0), -1);
+        LightDesk last = Checks.desk(RIG, "group 12 = 1 + 2; sub 8 with 1 + 2 @ 7; wave 4 = saw dim size 5 rate 5 spread 5 on 1 + 2; 1 @ 5; record 999; unpatch 1;");
+        same("the last group", last.group(12, 0), 2);
+        same("the last sub", last.sub(8, 1), -1);
+        same("the last wave", last.wave(4, 5), 2);
+        same("the last cue", last.change(999, 1, 0), -1);
     }
 
     private static void promise28() {

@@ -307,7 +307,9 @@ public final class TextPromisesTest {
         faulty(full, "copy 10 to ^11;", 5);
         faulty(full, "copy 10 to ^20;", 7);
         faulty(full, "copy 10 to ^1000;", 3);
+        fine(full, "cue 10 link 11; event 1 = 5 cue 11;", 2);
         fine(full, "delete 20; copy 10 to 11;", 2);
+        fine(full, "delete 11; copy 10 to 1; delete 1; cue 1;", 4);
         same("thirty again", full.state(3), 30);
     }
 
@@ -440,6 +442,9 @@ public final class TextPromisesTest {
         same("blind: more than what is TRACKED", desk.change(2, 2, 1), 250);
         same("blind: HOME if none", desk.change(2, 2, 2), 999);
         same("blind leaves the programmer", desk.state(7), 0);
+        fine(desk, "1 @ 900; blind 1; 1 @ + 5; live;", 4);
+        same("blind: of the first cue", desk.change(1, 1, 0), 305);
+        same("blind leaves the programmer", desk.held(1, 0), 900);
     }
 
     private static void promise6() {
