@@ -8,16 +8,18 @@ public final class RoomTest {
     public static void main(String[] args) {
         LightDesk desk = Checks.desk("patch 1 roller at 1; patch 2 spot at 5; patch 3 warm at 50; wave 1 = saw roll size 500 rate 7 spread 9 on 1;",
             "all @ 500; record 1 up 5 follow 3; all home; record 2 follow 4 link 1; clear; event 1 = 50 cue 2;");
+        // The first times, asking how much there is makes things, too.
         for (int i = 0; i < 20; i++) {
             callAll(desk);
+            allocated();
         }
         long before = allocated();
         for (int i = 0; i < 50; i++) {
             callAll(desk);
         }
-        // Asking how much there is makes a little, too; 50 rounds of one object each would make more than this.
+        // One object in each round would make more than this.
         long bytes = allocated() - before;
-        CHECKS.same("50 rounds of calls make nothing: " + bytes, bytes < 50 * 16, true);
+        CHECKS.same("50 rounds of calls make nothing, " + bytes, bytes < 50 * 16, true);
         before = allocated();
         LightDesk fresh = new LightDesk();
         long made = allocated() - before;
