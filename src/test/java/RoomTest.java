@@ -1,35 +1,32 @@
+import com.sun.management.ThreadMXBean;
 import java.lang.management.ManagementFactory;
 
 /** All calls of a run share one room, so calls make no objects but the eight past shows; and none of them takes long. */
 public final class RoomTest {
     private static final Checks CHECKS = new Checks("RoomTest");
+    private static final ThreadMXBean BEAN = (ThreadMXBean) ManagementFactory.getThreadMXBean();
     private static final int[] LIVE = {0x6c697665, 0x3b616c6c, 0x40353b20, 0x73617665, 0x20202020};
 
     public static void main(String[] args) {
         LightDesk desk = Checks.desk("patch 1 roller at 1; patch 2 spot at 5; patch 3 warm at 50; wave 1 = saw roll size 500 rate 7 spread 9 on 1;",
             "all @ 500; record 1 up 5 follow 3; all home; record 2 follow 4 link 1; clear; event 1 = 50 cue 2;");
-        // The first times, asking how much there is makes things, too.
         for (int i = 0; i < 20; i++) {
             callAll(desk);
-            allocated();
+            BEAN.getCurrentThreadAllocatedBytes();
         }
-        long before = allocated();
+        long before = BEAN.getCurrentThreadAllocatedBytes();
         for (int i = 0; i < 50; i++) {
             callAll(desk);
         }
         // One object in each round would make more than this.
-        long bytes = allocated() - before;
+        long bytes = BEAN.getCurrentThreadAllocatedBytes() - before;
         CHECKS.same("50 rounds of calls make nothing, " + bytes, bytes < 50 * 16, true);
-        before = allocated();
+        before = BEAN.getCurrentThreadAllocatedBytes();
         LightDesk fresh = new LightDesk();
-        long made = allocated() - before;
+        long made = BEAN.getCurrentThreadAllocatedBytes() - before;
         CHECKS.same("a new object is small: " + made, made < 400000, true);
         CHECKS.same("it is one", fresh.state(0), 0);
         CHECKS.finish();
-    }
-
-    private static long allocated() {
-        return ((com.sun.management.ThreadMXBean) ManagementFactory.getThreadMXBean()).getCurrentThreadAllocatedBytes();
     }
 
     private static int callAll(LightDesk desk) {
