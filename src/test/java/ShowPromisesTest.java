@@ -25,6 +25,7 @@ public final class ShowPromisesTest {
         promise33();
         promise34();
         promise35();
+        fortyUnits();
         oddArguments();
         CHECKS.finish();
     }
@@ -422,6 +423,39 @@ public final class ShowPromisesTest {
         same("one less", desk.state(5), 3);
         desk.advance(10);
         same("none fades", desk.state(8), 0);
+    }
+
+    /** The last of all numbers is as good as the first. */
+    private static void fortyUnits() {
+        StringBuilder text = new StringBuilder();
+        for (int unit = 1; unit <= 40; unit++) {
+            text.append("patch ").append(unit).append(unit == 40 ? " tint at 197;" : " lamp at " + unit + ";");
+        }
+        LightDesk desk = Checks.desk(text.toString(), "group 1 = all; wave 1 = saw dim size 5 rate 5 spread 5 on all; sub 8 masters; sub 8 with 40 @ 5;",
+            "all @ 100; record 1; 40 @ 500 red 300; record 2 up 10; clear; event 10 = 2 cue 2;");
+        same("patched", desk.state(4), 40);
+        desk.go();
+        same("unit 40", desk.level(40, 0), 100);
+        desk.advance(2);
+        same("event 10", desk.state(2), 2);
+        desk.advance(4);
+        same("fades", desk.level(40, 0), 300);
+        same("fades", desk.level(40, 1), 300);
+        same("slot 198", desk.slot(198), 77);
+        desk.advance(20);
+        same("sub 8", desk.shown(40), 0);
+        desk.fader(8, 500);
+        same("sub 8", desk.shown(40), 250);
+        same("slot 197", desk.slot(197), 64);
+        same("slot 40", desk.slot(40), 0);
+        done(desk, "blind 2; 40 @ 700; live;");
+        same("settled", desk.level(40, 0), 700);
+        done(desk, "unpatch 1; unpatch 40;");
+        same("a whole row with one gone", desk.group(1, 0), 2);
+        same("a whole row with one gone", desk.group(1, 37), 39);
+        same("a whole row with one gone", desk.group(1, 38), -1);
+        same("patched", desk.state(4), 38);
+        same("seen no more", desk.slot(198), 0);
     }
 
     /** No call may throw, whatever it is given. */

@@ -186,7 +186,10 @@ public final class TextPromisesTest {
             "record ^only;", "record 1 up 5 ^only;", "record 1 only ^only;", "update ^5;", "delete ^;", "delete 5 ^6;", "copy 5 ^6;", "copy 5 to ^;",
             "copy 5 to 6 ^up;", "block ^;", "unblock ^;", "blind ^none;", "live ^5;", "clear ^all;", "sneak ^;", "sneak 5 ^6;", "park ^all;",
             "park 5 ^5;", "park 5 @ ^;", "park 5 @ ^full;", "unpark ^;", "unpark all ^5;", "event 1 ^5;", "event 1 = ^cue 5;", "event 1 = 5 ^;",
-            "event 1 = 5 cue ^;", "event 1 = none ^cue;", "all ^;", "all + ^;", "all - ^@ 5;", "1 @ ^none;", "1 @ 5 ^+ 6;"};
+            "event 1 = 5 cue ^;", "event 1 = none ^cue;", "all ^;", "all + ^;", "all - ^@ 5;", "1 @ ^none;",
+            "1 ^saw 5;", "1 ^roller 5;", "palette 1 = ^saw 5;", "palette 1 = ^roller 5;", "palette 1 = dim 5 ^saw 5;", "wave 1 = ^up dim size 1 rate 2 spread 3 on 1;",
+            "wave 1 = ^roll dim size 1 rate 2 spread 3 on 1;", "wave 1 = saw ^saw size 1 rate 2 spread 3 on 1;", "cue 5 ^limit;", "cue 5 ^step 5;",
+            "patch 6 lamp at 100 ^loose;", "patch 6 lamp at 100 ^patch;", "patch 6 ^red at 100;", "^swap;", "^at;", "^release;", "1 @ 5 ^+ 6;"};
         for (String text : marked) {
             faulty(desk, text, 1);
         }
@@ -196,6 +199,14 @@ public final class TextPromisesTest {
         }
         entered(desk, "live;patch ", 1, 1, 11);
         same("nothing was done of these", desk.held(1, 0), 5);
+        Checks.put(desk, "livex;");
+        desk.end(4);
+        same("what was cut off is not read", desk.enter(), 0);
+        same("what was cut off is not read", desk.fault(1), 4);
+        Checks.put(desk, "1 @ 67;");
+        desk.end(5);
+        desk.enter();
+        same("what was cut off is not read", desk.fault(1), 5);
     }
 
     private static void faultsTwice() {
@@ -244,6 +255,30 @@ public final class TextPromisesTest {
         entered(desk, text + " home   ", 0, 1, text.length() + 8);
         entered(desk, "live;" + text + " home\n;", 1, 1, text.length() + 11);
         fine(desk, text + ";" + text + ";", 2);
+        fine(desk, "group 1 = 1" + " + 2 - 2".repeat(28) + " + 3;", 1);
+        same("58 terms", desk.group(1, 1), 3);
+        same("58 terms", desk.group(1, 2), -1);
+        faulty(desk, "unpatch 1" + " + 2 - 2".repeat(29) + " + 2^;", 1);
+        wholeTapes();
+    }
+
+    /** Texts of 6000 bytes, that end in all kinds of tokens. */
+    private static void wholeTapes() {
+        LightDesk desk = new LightDesk();
+        String[] signs = {"a", "1", " ", ";", "live;", "@", "group 1 ", "1 + "};
+        int[] places = {0, 0, -1, 0, -1, 0, 8, 0};
+        int[] done = {0, 0, 0, 0, 1200, 0, 0, 0};
+        for (int i = 0; i < signs.length; i++) {
+            Checks.put(desk, signs[i].repeat(6000 / signs[i].length()));
+            same("a whole tape", desk.state(9), 6000);
+            same("done of " + signs[i], desk.enter(), done[i]);
+            same("place of " + signs[i], desk.fault(1), places[i] == 0 && i == 7 ? 4 * 60 : places[i]);
+        }
+        Checks.put(desk, " ".repeat(5996) + "live");
+        desk.enter();
+        same("the end at 6000", desk.fault(1), 6000);
+        Checks.put(desk, " ".repeat(5995) + "live;");
+        same("the last byte counts", desk.enter(), 1);
     }
 
     private static void faultsOfNumbers() {
@@ -311,6 +346,8 @@ public final class TextPromisesTest {
         fine(full, "delete 20; copy 10 to 11;", 2);
         fine(full, "delete 11; copy 10 to 1; delete 1; cue 1;", 4);
         same("thirty again", full.state(3), 30);
+        fine(full, "1 @ 77; record 300 only;", 2);
+        same("only, of the last of thirty", full.change(300, 1, 0), 77);
     }
 
     private static void faultsOfSlotsAndSets() {
@@ -541,7 +578,7 @@ public final class TextPromisesTest {
         same("save of nothing", desk.save(), 0);
         same("the tape becomes it", desk.state(9), 0);
         String text = "patch 3 head at 11 swap invert curve 3 limit 5; patch 1 lamp at 2; patch 2 spot at 20 curve 1; patch 40 tint at 197 limit 0;"
-            + "group 12 = 40 + 1 + 3; group 1 = 2; palette 2 = roll 5 dim 1000 iris 0; palette 1 = none;"
+            + "group 12 = 40 + 1 + 3; group 1 = 2; palette 12 = pan 3; palette 2 = roll 5 dim 1000 iris 0; palette 1 = none;"
             + "sub 3 with 2 + 1 @ 70; sub 3 masters; sub 2 with 3 @ 0; sub 8 masters;"
             + "wave 4 = step wheel size 10 rate 1000 spread 0 on 3 + 2; wave 1 = saw dim size 0 rate 0 spread 1 on all;"
             + "cue 20; cue 10 link 999 follow 0 delay 4 move 3 down 2 up 600; cue 15 up 7;"
@@ -549,7 +586,7 @@ public final class TextPromisesTest {
             + "1 @ 5; park 200 @ 255; park 9 @ 0; event 10 = 9999 cue 999; event 2 = 0 cue 1;";
         Checks.text(desk, text);
         String due = "patch 1 lamp at 2;\npatch 2 spot at 20 curve 1;\npatch 3 head at 11 limit 5 curve 3 invert swap;\npatch 40 tint at 197 limit 0;\n"
-            + "group 1=2;\ngroup 12=40+1+3;\npalette 2=dim 1000 iris 0 roll 5;\n"
+            + "group 1=2;\ngroup 12=40+1+3;\npalette 2=dim 1000 iris 0 roll 5;\npalette 12=pan 3;\n"
             + "sub 2 with 3@0;\nsub 3 masters;\nsub 3 with 1@70;\nsub 3 with 2@70;\nsub 8 masters;\n"
             + "wave 1=saw dim size 0 rate 0 spread 1 on 1+2+3+40;\nwave 4=step wheel size 10 rate 1000 spread 0 on 3+2;\n"
             + "cue 10 up 600 down 2 move 3 delay 4 follow 0 link 999;\nblind 10;\n2 pan from 1;\n40 dim 0 red from 12 blue 7;\nlive;\n"
@@ -617,6 +654,8 @@ public final class TextPromisesTest {
         desk.end(0);
         Checks.text(desk, "event 1 = 1 cue 1;");
         same("more than the room", desk.save(), -1);
+        desk.undo();
+        same("fits again", desk.save(), 6000);
     }
 
     private static void promise8() {
