@@ -16,12 +16,17 @@ public final class FuzzTest {
     private final Model model = new Model();
     private final StringBuilder log = new StringBuilder();
     private final int wild;
+    private final int unitCount;
+    private final int cueCount;
     private int wrong = 0;
 
     private FuzzTest(long seed) {
         random = new Random(seed);
         // Some runs make few faults, so that they get far; some make many.
         wild = seed % 3 == 0 ? 4 : seed % 3 == 1 ? 40 : 400;
+        // Some have large shows, up to more cues than there can be and more bytes than can be saved.
+        unitCount = seed % 5 == 0 ? 40 : 8;
+        cueCount = seed % 7 == 0 ? 40 : 9;
     }
 
     public static void main(String[] args) {
@@ -44,6 +49,7 @@ public final class FuzzTest {
 
     private void play() {
         text(rig());
+        text(cues());
         for (int i = 0; i < 120 && wrong == 0; i++) {
             call();
         }
@@ -98,7 +104,30 @@ public final class FuzzTest {
     }
 
     private String unit() {
-        return number(1 + random.nextInt(8));
+        int unit = 1 + random.nextInt(unitCount);
+        // Mostly one that is patched.
+        for (int i = 0; i < 8 && model.unit(unit, 0) == -1 && !chance(10); i++) {
+            unit = 1 + random.nextInt(unitCount);
+        }
+        return number(unit);
+    }
+
+    private String freeUnit() {
+        int unit = 1 + random.nextInt(unitCount);
+        for (int i = 0; i < 8 && model.unit(unit, 0) != -1 && !chance(10); i++) {
+            unit = 1 + random.nextInt(unitCount);
+        }
+        return number(unit);
+    }
+
+    private String cueThere() {
+        int count = model.state(3);
+        return count == 0 || chance(10) ? cue() : number(model.cue(random.nextInt(count), 0));
+    }
+
+    /** A statement ahead of one that needs the programmer's values. */
+    private String held() {
+        return chance(3) ? "" : set() + " " + what() + " " + what() + "; ";
     }
 
     private String level() {
@@ -106,7 +135,7 @@ public final class FuzzTest {
     }
 
     private String cue() {
-        return number(1 + random.nextInt(9));
+        return number(1 + random.nextInt(cueCount));
     }
 
     private String time() {
@@ -124,12 +153,20 @@ public final class FuzzTest {
     private String rig() {
         StringBuilder text = new StringBuilder();
         int slot = 1;
-        for (int unit = 1; unit <= 8; unit++) {
+        for (int unit = 1; unit <= unitCount; unit++) {
             if (!chance(5)) {
                 String kind = kind();
                 text.append("patch ").append(unit).append(' ').append(kind).append(" at ").append(slot).append(options()).append(';');
                 slot += Model.SLOTS.get(Model.KINDS.indexOf(kind)).size() + (chance(3) ? 1 : 0);
             }
+        }
+        return text.toString();
+    }
+
+    private String cues() {
+        StringBuilder text = new StringBuilder();
+        for (int i = 1; i <= cueCount - 6; i++) {
+            text.append(chance(2) ? "cue " : "all " + what() + " dim 5; record ").append(i + random.nextInt(2)).append(times()).append(';');
         }
         return text.toString();
     }
@@ -141,7 +178,7 @@ public final class FuzzTest {
 
     private String term() {
         int which = random.nextInt(10);
-        return which == 0 ? "all" : which == 1 ? "group " + number(1 + random.nextInt(3)) : which < 5 ? unit() + " thru " + unit() : unit();
+        return which == 0 ? "all" : which == 1 && model.group(1, 0) != -1 ? "group " + number(1 + random.nextInt(chance(4) ? 3 : 1)) : which < 5 ? unit() + " thru " + unit() : unit();
     }
 
     private String set() {
@@ -196,9 +233,9 @@ public final class FuzzTest {
     private String statement() {
         switch (random.nextInt(30)) {
             case 0:
-                return "patch " + unit() + " " + kind() + " at " + number(1 + random.nextInt(60)) + options();
+                return "patch " + freeUnit() + " " + kind() + " at " + number(1 + random.nextInt(80)) + options();
             case 1:
-                return chance(2) ? "unpatch " + unit() : "patch " + unit() + " " + kind() + " at " + number(190 + random.nextInt(12)) + options();
+                return chance(2) ? "unpatch " + unit() : "patch " + freeUnit() + " " + kind() + " at " + number(190 + random.nextInt(12)) + options();
             case 2:
                 return "group " + number(1 + random.nextInt(3)) + word(" = ", "=") + set();
             case 3:
@@ -214,22 +251,22 @@ public final class FuzzTest {
             case 8:
             case 9:
             case 10:
-                return "record " + cue() + (chance(2) ? " only" : "") + times();
+                return held() + "record " + cue() + (chance(2) ? " only" : "") + times();
             case 11:
             case 12:
-                return "update";
+                return held() + "update";
             case 13:
-                return chance(2) ? "delete " + cue() : "clear";
+                return chance(2) ? "delete " + cueThere() : "clear";
             case 14:
-                return "copy " + cue() + " to " + number(1 + random.nextInt(chance(3) ? 999 : 12));
+                return "copy " + cueThere() + " to " + number(1 + random.nextInt(chance(3) ? 999 : 12 + cueCount));
             case 15:
-                return word("block ", "unblock ") + cue();
+                return word("block ", "unblock ") + cueThere();
             case 16:
-                return chance(2) ? "blind " + cue() : "live";
+                return chance(2) ? "blind " + cueThere() : "live";
             case 17:
                 return "live";
             case 18:
-                return "sneak " + time();
+                return held() + "sneak " + time();
             case 19:
                 return chance(2) ? "park " + number(1 + random.nextInt(40)) + "@" + number(random.nextInt(256)) : "unpark " + word("all", number(1 + random.nextInt(40)));
             case 20:
@@ -281,7 +318,7 @@ public final class FuzzTest {
         int s = odd(1 + random.nextInt(4));
         int level = odd(random.nextInt(1001));
         boolean on = random.nextBoolean();
-        switch (random.nextInt(18)) {
+        switch (random.nextInt(20)) {
             case 0:
                 answer("go()", desk.go(), model.go());
                 break;
@@ -289,7 +326,7 @@ public final class FuzzTest {
                 answer("back()", desk.back(), model.back());
                 break;
             case 2:
-                int c = odd(1 + random.nextInt(9));
+                int c = odd(1 + random.nextInt(cueCount));
                 answer("jump(" + c + ")", desk.jump(c), model.jump(c));
                 break;
             case 3:
@@ -319,7 +356,9 @@ public final class FuzzTest {
                 answer("run(" + s + ", " + on + ")", desk.run(s, on), model.run(s, on));
                 break;
             case 12:
-                answer("undo()", desk.undo(), model.undo());
+                if (chance(2)) {
+                    answer("undo()", desk.undo(), model.undo());
+                }
                 break;
             case 13:
                 savedAndRead();
@@ -361,7 +400,7 @@ public final class FuzzTest {
                 quiet("sub", what, unit, desk.sub(what, unit), model.sub(what, unit));
             }
         }
-        for (int i = -1; i <= 13; i++) {
+        for (int i = -1; i <= 31; i++) {
             quiet("masters(" + i + ")", desk.masters(i), model.masters(i));
             for (int what = -1; what <= 12; what++) {
                 quiet("cue", i, what, desk.cue(i, what), model.cue(i, what));
@@ -372,8 +411,8 @@ public final class FuzzTest {
             }
         }
         for (int i = 0; i < 60; i++) {
-            int c = pick(-1, 0, 1, 2, 3, 4, 5, 6, 7, 8, 9, 999, 1000);
-            int unit = random.nextInt(10);
+            int c = chance(3) ? pick(-1, 0, 999, 1000) : 1 + random.nextInt(cueCount);
+            int unit = random.nextInt(unitCount + 2);
             int parameter = random.nextInt(11) - 1;
             String names = "(" + c + ", " + unit + ", " + parameter + ")";
             quiet("tracked" + names, desk.tracked(c, unit, parameter), model.tracked(c, unit, parameter));
