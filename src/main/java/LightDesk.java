@@ -324,7 +324,7 @@ public final class LightDesk {
     }
 
     public int undo() {
-        if (pastCount == 0) {
+        if (pastCount == 0 || past[pastCount - 1] == null) {
             return NONE;
         }
         pastCount--;
