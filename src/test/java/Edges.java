@@ -2,6 +2,14 @@ import java.util.function.IntSupplier;
 
 /** Checks told with the sentence of the document that they are about, and the ways to hold a desk against it. */
 final class Edges {
+    static final String[] KINDS = {"lamp", "fine", "warm", "relay", "tint", "glow", "head", "spot", "roller"};
+    /** How many slots a unit of each kind has, and which parameters. */
+    static final int[] WIDTHS = {1, 2, 1, 1, 4, 3, 7, 8, 2};
+    static final String[] HAS = {"dim", "dim", "dim", "dim", "dim red green blue", "dim red green blue", "dim pan tilt wheel",
+        "dim pan tilt wheel iris", "dim roll"};
+    static final String[] PARAMETERS = {"dim", "red", "green", "blue", "pan", "tilt", "wheel", "iris", "roll"};
+    static final int[] HOME = {0, 1000, 1000, 1000, 500, 500, 0, 1000, 0};
+
     private final Checks checks;
     private String sentence = "";
 

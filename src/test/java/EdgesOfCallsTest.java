@@ -1,9 +1,13 @@
-/** "Promise 1" to "Promise 35": the least and the greatest argument of each call, what it answers beyond them, and that a refused call changes nothing. */
+/**
+ * "Promise 1" to "Promise 35": the least and the greatest argument of each call, what it answers beyond them, and that a
+ * refused call changes nothing.
+ */
 public final class EdgesOfCallsTest {
     private static final Edges EDGES = new Edges("EdgesOfCallsTest");
     private static final int LEAST = Integer.MIN_VALUE;
     private static final int GREATEST = Integer.MAX_VALUE;
-    private static final String RIG = "patch 1 lamp at 1; patch 2 tint at 2; patch 3 head at 10; patch 39 roller at 191; patch 40 spot at 193 limit 900 curve 1 invert swap;";
+    private static final String RIG = "patch 1 lamp at 1; patch 2 tint at 2; patch 3 head at 10; patch 39 roller at 191; "
+        + "patch 40 spot at 193 limit 900 curve 1 invert swap;";
 
     public static void main(String[] args) {
         newObject();
@@ -37,15 +41,19 @@ public final class EdgesOfCallsTest {
         events();
         waves();
         states();
+        allPlacesTaken();
         refusedInAFade();
         EDGES.finish();
     }
 
     /** A desk that has something of all, with fades under way. */
     private static LightDesk busy() {
-        LightDesk desk = Checks.desk(RIG, "group 1 = 40 + 1; group 12 = 2; palette 1 = dim 5 roll 6; palette 12 = red 7; sub 1 with 1 + 40 @ 800; sub 8 with 2 @ 900; sub 8 masters;",
+        LightDesk desk = Checks.desk(RIG,
+            "group 1 = 40 + 1; group 12 = 2; palette 1 = dim 5 roll 6; palette 12 = red 7; sub 1 with 1 + 40 @ 800; sub 8 with 2 @ 900; "
+            + "sub 8 masters;",
             "wave 1 = saw dim size 100 rate 7 spread 500 on 1 + 40; wave 4 = peak roll size 50 rate 9 spread 0 on 39;",
-            "all @ 900 pan 900; 39 roll 500; record 10 up 50 down 40 move 30 delay 5 follow 200 link 30; clear; 1 @ 100; 2 red from 12; record 20; record 999 up 9; clear;",
+            "all @ 900 pan 900; 39 roll 500; record 10 up 50 down 40 move 30 delay 5 follow 200 link 30; clear; 1 @ 100; 2 red from 12; "
+            + "record 20; record 999 up 9; clear;",
             "cue 30; blind 20; park 5 @ 77; park 200 @ 0; event 1 = 9999 cue 10; event 10 = 400 cue 999; live; 3 @ 44; blind 999;");
         desk.fader(1, 300);
         desk.fader(8, 400);
@@ -61,7 +69,25 @@ public final class EdgesOfCallsTest {
     private static void newObject() {
         EDGES.sentence("Promise 1: Nothing is patched, the show, the tape empty; all as told at first");
         LightDesk desk = new LightDesk();
-        EDGES.same("the picture of a new one", Picture.difference(Picture.withTape(desk), Picture.withTape(new LightDesk())), "");
+        for (int i = 1; i <= 12; i++) {
+            for (int what = 0; what <= 45; what++) {
+                EDGES.same("groups, waves, cues", desk.group(i, what) + desk.wave(i, what) + desk.cue(i - 1, what), -3);
+            }
+            for (int what = 0; what <= 8; what++) {
+                EDGES.same("palettes, events", desk.palette(i, what) + desk.event(i, what), -2);
+            }
+        }
+        for (int unit = 1; unit <= 40; unit++) {
+            for (int what = 0; what <= 8; what++) {
+                EDGES.same("units, values, subs", desk.unit(unit, what) + desk.held(unit, what) + desk.sub(what, unit), -3);
+                EDGES.same("levels, shown", desk.level(unit, what) + desk.shown(unit), -4);
+                EDGES.same("origins", desk.origin(999, unit, what), 0);
+            }
+        }
+        for (int k = 1; k <= 200; k++) {
+            EDGES.same("slots", desk.slot(k), 0);
+            EDGES.same("parks", desk.park(k), -1);
+        }
         Checks.text(desk, RIG);
         EDGES.same("another one has nothing of it", new LightDesk().state(4), 0);
         LightDesk fresh = new LightDesk();
@@ -170,7 +196,8 @@ public final class EdgesOfCallsTest {
     }
 
     private static void undoing() {
-        EDGES.sentence("Promise 6: The show is as it was ahead of the latest text of which a statement was done and that was not undone: 1. NONE if there is none such");
+        EDGES.sentence("Promise 6: The show is as it was ahead of the latest text of which a statement was done and that was not undone: 1. NONE "
+            + "if there is none such");
         LightDesk desk = new LightDesk();
         EDGES.refused(desk, "undo of none", desk::undo, -1);
         Checks.text(desk, "");
@@ -184,7 +211,8 @@ public final class EdgesOfCallsTest {
         EDGES.refused(desk, "undo of none", desk::undo, -1);
         EDGES.fine(desk, RIG);
         String rig = Picture.of(desk);
-        EDGES.fine(desk, "1 @ 5; cue 5; blind 5; 1 @ 7; group 1 = 1; palette 1 = dim 5; sub 1 masters; sub 1 with 1 @ 5; park 1 @ 5; event 1 = 5 cue 5;");
+        EDGES.fine(desk, "1 @ 5; cue 5; blind 5; 1 @ 7; group 1 = 1; palette 1 = dim 5; sub 1 masters; sub 1 with 1 @ 5; park 1 @ 5; "
+            + "event 1 = 5 cue 5;");
         EDGES.fine(desk, "wave 1 = saw dim size 1 rate 1 spread 1 on 1; unpatch 2; clear; live;");
         EDGES.same("undo", desk.undo(), 1);
         EDGES.same("the programmer", desk.held(1, 0), 5);
@@ -453,7 +481,8 @@ public final class EdgesOfCallsTest {
     private static void trackedAndOrigin() {
         EDGES.sentence("Promise 22, 23: number c (0 .. 999). -2: no such number, unit (1 .. 40), parameter");
         LightDesk desk = busy();
-        int[][] rows = {{-1, 1, 0}, {1000, 1, 0}, {LEAST, 1, 0}, {GREATEST, 1, 0}, {0, 0, 0}, {0, 41, 0}, {0, -1, 0}, {0, LEAST, 0}, {0, GREATEST, 0}, {0, 1, -1},
+        int[][] rows = {{-1, 1, 0}, {1000, 1, 0}, {LEAST, 1, 0}, {GREATEST, 1, 0}, {0, 0, 0}, {0, 41, 0}, {0, -1, 0}, {0, LEAST, 0}, {0, GREATEST, 0},
+            {0, 1, -1},
             {0, 1, 9}, {0, 1, LEAST}, {0, 1, GREATEST}, {1000, 41, 9}, {999, 41, 8}, {999, 40, 9}, {1000, 40, 8}, {10, 0, 9}, {10, 41, -1}};
         for (int[] row : rows) {
             String names = "(" + row[0] + ", " + row[1] + ", " + row[2] + ")";
@@ -479,7 +508,8 @@ public final class EdgesOfCallsTest {
     private static void changes() {
         EDGES.sentence("Promise 24: a level, or 2000 and the palette; NONE without one. -2: no such cue, unit, parameter");
         LightDesk desk = busy();
-        int[][] rows = {{0, 1, 0}, {-1, 1, 0}, {9, 1, 0}, {11, 1, 0}, {998, 1, 0}, {1000, 1, 0}, {LEAST, 1, 0}, {GREATEST, 1, 0}, {10, 0, 0}, {10, 41, 0},
+        int[][] rows = {{0, 1, 0}, {-1, 1, 0}, {9, 1, 0}, {11, 1, 0}, {998, 1, 0}, {1000, 1, 0}, {LEAST, 1, 0}, {GREATEST, 1, 0}, {10, 0, 0},
+            {10, 41, 0},
             {10, -1, 0}, {10, LEAST, 0}, {10, GREATEST, 0}, {10, 1, -1}, {10, 1, 9}, {10, 1, LEAST}, {10, 1, GREATEST}, {999, 41, 8}, {999, 40, 9}};
         for (int[] row : rows) {
             EDGES.refused(desk, "change(" + row[0] + ", " + row[1] + ", " + row[2] + ")", () -> desk.change(row[0], row[1], row[2]), -2);
@@ -621,7 +651,8 @@ public final class EdgesOfCallsTest {
     }
 
     private static void events() {
-        EDGES.sentence("Promise 33: Of event n, what 0: its time, 1 its cue's number; NONE if it is none, or there is none such, or for another what");
+        EDGES.sentence("Promise 33: Of event n, what 0: its time, 1 its cue's number; NONE if it is none, or there is none such, "
+            + "or for another what");
         LightDesk desk = busy();
         for (int n : new int[] {0, -1, 2, 9, 11, LEAST, GREATEST}) {
             EDGES.refused(desk, "event(" + n + ", 0)", () -> desk.event(n, 0), -1);
@@ -695,6 +726,73 @@ public final class EdgesOfCallsTest {
         EDGES.same("fading", gone.state(8), 1);
     }
 
+    /** Forty units on all of the slots, and all that there can be of everything else. */
+    private static LightDesk full() {
+        StringBuilder text = new StringBuilder();
+        for (int unit = 1; unit <= 20; unit++) {
+            text.append("patch ").append(unit).append(" spot at ").append(unit * 8 - 7).append(';');
+            text.append("patch ").append(unit + 20).append(" fine at ").append(159 + unit * 2).append(';');
+        }
+        LightDesk desk = Checks.desk(text.toString());
+        String levels = "dim 1 red 2 green 3 blue 4 pan 5 tilt 6 wheel 7 iris 8 roll 9";
+        for (int i = 1; i <= 12; i++) {
+            EDGES.fine(desk, "group " + i + " = 40 thru 1; palette " + i + " = " + levels + ";");
+        }
+        for (int i = 1; i <= 8; i++) {
+            EDGES.fine(desk, "sub " + i + " masters; sub " + i + " with all @ 1000;");
+        }
+        for (int i = 1; i <= 4; i++) {
+            EDGES.fine(desk, "wave " + i + " = saw dim size 1000 rate 1000 spread 1000 on 40 thru 1;");
+        }
+        EDGES.fine(desk, "all " + levels + ";");
+        for (int i = 1; i <= 30; i++) {
+            EDGES.fine(desk, "record " + (i < 30 ? i : 999) + " up 600 down 600 move 600 delay 600 follow 600 link 999;");
+        }
+        for (int i = 1; i <= 10; i++) {
+            EDGES.fine(desk, "event " + i + " = 9999 cue 999;");
+        }
+        for (int k = 1; k <= 200; k++) {
+            EDGES.fine(desk, "park " + k + " @ 255;");
+        }
+        return desk;
+    }
+
+    private static void allPlacesTaken() {
+        EDGES.sentence("all places taken");
+        LightDesk desk = full();
+        int[] due = {0, 0, 0, 30, 40, 8, -1, 120, 0, 0};
+        for (int what = 0; what < due.length; what++) {
+            EDGES.same("state(" + what + ")", desk.state(what), due[what]);
+        }
+        EDGES.same("changes of the first cue", desk.cue(0, 6), 120);
+        EDGES.same("changes of the last cue", desk.cue(29, 6), 120);
+        EDGES.same("the last change", desk.change(999, 40, 0), 1);
+        EDGES.same("the last slot", desk.slot(200), 255);
+        EDGES.refused(desk, "save()", desk::save, -1);
+        EDGES.faulty(desk, 7, "patch ^40 lamp at 200;", "patch ^1 lamp at 1;", "copy 1 to ^999;");
+        EDGES.faulty(desk, 5, "cue ^30;", "record ^998;", "copy 999 to ^500;");
+        EDGES.faulty(desk, "^1 - all @ 5;", 6);
+        EDGES.fine(desk, "block 999; unblock 999;");
+        EDGES.same("all of them are the same as TRACKED", desk.cue(29, 6), 0);
+        EDGES.fine(desk, "block 999;");
+        EDGES.same("all of them are TRACKED", desk.cue(29, 6), 120);
+        EDGES.same("the first cue is taken", desk.go(), 1);
+        EDGES.same("fading: dim, and nothing else, as all are DARK", desk.state(8), 40);
+        EDGES.same("LINK", desk.go(), 999);
+        EDGES.fine(desk, "unpatch all;");
+        EDGES.same("units", desk.state(4), 0);
+        EDGES.same("changes", desk.cue(29, 6), 0);
+        EDGES.same("the last group", desk.group(12, 0), -1);
+        EDGES.same("the last sub", desk.sub(8, 40), -1);
+        EDGES.same("the last wave", desk.wave(4, 0), -1);
+        EDGES.same("values", desk.state(7), 0);
+        EDGES.same("undo", desk.undo(), 1);
+        EDGES.same("changes", desk.cue(29, 6), 120);
+        EDGES.same("the last group's last unit", desk.group(12, 39), 1);
+        EDGES.same("the last wave's last unit", desk.wave(4, 44), 1);
+        EDGES.same("values", desk.state(7), 120);
+    }
+
     /** What is refused between the tenths of a fade changes nothing that is seen later either. */
     private static void refusedInAFade() {
         EDGES.sentence("With a refused call, or a FAULT, nothing has changed");
@@ -704,7 +802,8 @@ public final class EdgesOfCallsTest {
         left.enter();
         disturbed.end(0);
         disturbed.enter();
-        String[] faulty = {"#", "4 @ 5;", "1 @ 1001;", "patch 4 lamp at 1;", "1 - 1 @ 5;", "patch 1 lamp at 100;", "copy 10 to 20;", "sneak 601;", "jump 20;"};
+        String[] faulty = {"#", "4 @ 5;", "1 @ 1001;", "patch 4 lamp at 1;", "1 - 1 @ 5;", "patch 1 lamp at 100;", "copy 10 to 20;", "sneak 601;",
+            "jump 20;"};
         for (int i = 0; i < 60; i++) {
             disturbed.jump(i % 2 == 0 ? 5 : 1000);
             disturbed.advance(i % 2 == 0 ? -1 : 601);

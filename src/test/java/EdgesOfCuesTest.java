@@ -145,7 +145,8 @@ public final class EdgesOfCuesTest {
 
     private static void recordingOnlyOfAll() {
         EDGES.sentence("with only: HOME of each parameter that a kind has");
-        LightDesk desk = Checks.desk("patch 1 spot at 1; patch 40 tint at 20; patch 9 roller at 30; cue 2; all @ 3; 1 pan 3 tilt 3 wheel 3 iris 3; 40 red 3 green 3 blue 3; 9 roll 3; record 1 only;");
+        LightDesk desk = Checks.desk("patch 1 spot at 1; patch 40 tint at 20; patch 9 roller at 30; cue 2; all @ 3; "
+            + "1 pan 3 tilt 3 wheel 3 iris 3; 40 red 3 green 3 blue 3; 9 roll 3; record 1 only;");
         int[] units = {1, 40, 40, 40, 1, 1, 1, 1, 9};
         int[] home = {0, 1000, 1000, 1000, 500, 500, 0, 1000, 0};
         for (int parameter = 0; parameter < 9; parameter++) {
@@ -158,7 +159,8 @@ public final class EdgesOfCuesTest {
     private static void updating() {
         EDGES.sentence("update: each value becomes the change there of the cue that is the ORIGIN in CURRENT; "
             + "where there is none, of the cue of the greatest number not above CURRENT. The programmer is empty then");
-        LightDesk desk = Checks.desk(RIG, "palette 1 = dim 5; 1 @ 100; record 1; clear; 2 red 5; record 5; clear; cue 9; 1 @ 300; 3 pan 3; record 10; clear;");
+        LightDesk desk = Checks.desk(RIG,
+            "palette 1 = dim 5; 1 @ 100; record 1; clear; 2 red 5; record 5; clear; cue 9; 1 @ 300; 3 pan 3; record 10; clear;");
         desk.jump(9);
         EDGES.fine(desk, "1 @ from 1; 2 red 6; 3 pan 8; update;");
         EDGES.same("the ORIGIN, FROM a palette", desk.change(1, 1, 0), 2001);
@@ -217,7 +219,8 @@ public final class EdgesOfCuesTest {
 
     private static void copying() {
         EDGES.sentence("copy: a new cue with the same times, LINK and changes");
-        LightDesk desk = Checks.desk(RIG, "palette 1 = dim 5; all home; 1 @ from 1; record 5 up 1 down 2 move 3 delay 4 follow 5 link 999; clear; cue 7;");
+        LightDesk desk = Checks.desk(RIG,
+            "palette 1 = dim 5; all home; 1 @ from 1; record 5 up 1 down 2 move 3 delay 4 follow 5 link 999; clear; cue 7;");
         int changes = desk.cue(0, 6);
         EDGES.fine(desk, "copy 5 to 1; copy 5 to 999; copy 5 to 6; copy 7 to 8;");
         int[] places = {0, 1, 2, 5};
@@ -235,7 +238,8 @@ public final class EdgesOfCuesTest {
 
     private static void blocking() {
         EDGES.sentence("block: wherever something is TRACKED in the cue and it has no change, that is its change now");
-        LightDesk desk = Checks.desk(RIG, "palette 1 = dim 5; 1 @ from 1; 2 red 0; record 1; clear; 2 red 7 green 1000; record 5; clear; cue 9; 3 pan 4; record 10; clear;");
+        LightDesk desk = Checks.desk(RIG,
+            "palette 1 = dim 5; 1 @ from 1; 2 red 0; record 1; clear; 2 red 7 green 1000; record 5; clear; cue 9; 3 pan 4; record 10; clear;");
         EDGES.fine(desk, "block 9;");
         EDGES.same("FROM", desk.change(9, 1, 0), 2001);
         EDGES.same("the latest", desk.change(9, 2, 1), 7);
@@ -253,8 +257,10 @@ public final class EdgesOfCuesTest {
     }
 
     private static void unblocking() {
-        EDGES.sentence("unblock: each change that is the same VALUE as what is TRACKED in the cue of the next lesser number is gone (if there is one)");
-        LightDesk desk = Checks.desk(RIG, "palette 1 = dim 5 red 5; palette 2 = dim 5; 1 @ 5; 2 @ from 1 red 0; 3 @ 0; 40 @ from 1; record 1; clear; cue 2;",
+        EDGES.sentence("unblock: each change that is the same VALUE as what is TRACKED in the cue of the next lesser number is gone (if there is "
+            + "one)");
+        LightDesk desk = Checks.desk(RIG,
+            "palette 1 = dim 5 red 5; palette 2 = dim 5; 1 @ 5; 2 @ from 1 red 0; 3 @ 0; 40 @ from 1; record 1; clear; cue 2;",
             "1 @ 5; 2 @ from 1 red 1; 3 @ 0 pan 500; 40 @ from 2; record 3; clear;");
         EDGES.fine(desk, "unblock 1;");
         EDGES.same("no lesser one: all stay", desk.cue(0, 6), 5);
@@ -372,14 +378,20 @@ public final class EdgesOfCuesTest {
     private static void doneAgain() {
         EDGES.sentence("a statement done again changes nothing");
         String all = "group 1 = 40 + 1; group 12 = 2; palette 1 = dim 5 roll 6; sub 1 with 1 + 40 @ 800; sub 8 with 2 @ 900; sub 8 masters;"
-            + "wave 1 = saw dim size 100 rate 7 spread 500 on 1 + 40; cue 7 up 3 follow 9 link 8; all @ 100 thru 900; 2 red from 1; record 5; record 9 only;"
-            + "blind 7; 3 pan 8; block 9; block 7; unblock 7; park 5 @ 77; event 1 = 9999 cue 5; live; unpark 9; event 2 = none; sub 2 none; palette 2 = none;";
+            + "wave 1 = saw dim size 100 rate 7 spread 500 on 1 + 40; cue 7 up 3 follow 9 link 8; all @ 100 thru 900; 2 red from 1; record 5; "
+            + "record 9 only;"
+            + "blind 7; 3 pan 8; block 9; block 7; unblock 7; park 5 @ 77; event 1 = 9999 cue 5; live; unpark 9; event 2 = none; sub 2 none; "
+            + "palette 2 = none;";
         LightDesk desk = Checks.desk(RIG, all);
         String before = shown(desk);
-        String[] again = {"group 1 = 40 + 1;", "group 1 = group 1;", "palette 1 = roll 6 dim 5;", "sub 1 with 40 + 1 @ 800;", "sub 8 masters;", "sub 1 adds;",
-            "wave 1 = saw dim size 100 rate 7 spread 500 on 1 + 40;", "cue 7;", "cue 7 up 3;", "record 5;", "record 9 only;", "block 9;", "block 5;", "unblock 5;",
-            "live;", "blind 5; live;", "park 5 @ 77;", "unpark 9;", "event 1 = 9999 cue 5;", "event 2 = none;", "sub 2 none;", "palette 2 = none;", "wave 2 = none;",
-            "all @ 100 thru 900;", "2 red from 1;", "2 wheel 5;", "1 - 1 + 1 @ + 0;", "blind 7; 3 pan 8; live;", "unblock 7;", "cue 7 follow 9; cue 7 link 8;"};
+        String[] again = {"group 1 = 40 + 1;", "group 1 = group 1;", "palette 1 = roll 6 dim 5;", "sub 1 with 40 + 1 @ 800;", "sub 8 masters;",
+            "sub 1 adds;",
+            "wave 1 = saw dim size 100 rate 7 spread 500 on 1 + 40;", "cue 7;", "cue 7 up 3;", "record 5;", "record 9 only;", "block 9;", "block 5;",
+            "unblock 5;",
+            "live;", "blind 5; live;", "park 5 @ 77;", "unpark 9;", "event 1 = 9999 cue 5;", "event 2 = none;", "sub 2 none;", "palette 2 = none;",
+            "wave 2 = none;",
+            "all @ 100 thru 900;", "2 red from 1;", "2 wheel 5;", "1 - 1 + 1 @ + 0;", "blind 7; 3 pan 8; live;", "unblock 7;",
+            "cue 7 follow 9; cue 7 link 8;"};
         for (String statement : again) {
             EDGES.fine(desk, statement);
             EDGES.same("changed by " + statement, Picture.difference(before, shown(desk)), "");
@@ -390,9 +402,12 @@ public final class EdgesOfCuesTest {
         EDGES.sentence("a statement changes what it tells of, and nothing else");
         LightDesk desk = Checks.desk(RIG, "all @ 100 thru 900; 2 red 7; record 5 up 1; 1 @ 100; record 9; clear; cue 12 link 5; blind 9; 3 pan 8;");
         String before = shown(desk);
-        String[] thereAndBack = {"copy 5 to 6; delete 6;", "copy 9 to 1; delete 1;", "copy 12 to 30; delete 30;", "cue 30 up 7; delete 30;", "park 5 @ 5; unpark 5;", "event 3 = 5 cue 5; event 3 = none;",
-            "palette 3 = dim 5; palette 3 = none;", "sub 3 with all @ 5; sub 3 none;", "sub 3 masters; sub 3 adds;", "wave 3 = saw dim size 1 rate 1 spread 1 on all; wave 3 = none;",
-            "live; blind 9;", "blind 5; blind 9;", "patch 4 lamp at 100; unpatch 4;", "live; 1 @ 5; clear; blind 9;", "live; 1 @ 5; 1 release; blind 9;",
+        String[] thereAndBack = {"copy 5 to 6; delete 6;", "copy 9 to 1; delete 1;", "copy 12 to 30; delete 30;", "cue 30 up 7; delete 30;",
+            "park 5 @ 5; unpark 5;", "event 3 = 5 cue 5; event 3 = none;",
+            "palette 3 = dim 5; palette 3 = none;", "sub 3 with all @ 5; sub 3 none;", "sub 3 masters; sub 3 adds;",
+            "wave 3 = saw dim size 1 rate 1 spread 1 on all; wave 3 = none;",
+            "live; blind 9;", "blind 5; blind 9;", "patch 4 lamp at 100; unpatch 4;", "live; 1 @ 5; clear; blind 9;",
+            "live; 1 @ 5; 1 release; blind 9;",
             "live; 1 home; sneak 0; blind 9;", "park 9 @ 9; unpark all;", "cue 5 up 2; cue 5 up 1;",
             "unblock 5; block 5;"};
         for (String text : thereAndBack) {

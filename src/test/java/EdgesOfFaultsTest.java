@@ -2,8 +2,6 @@
 public final class EdgesOfFaultsTest {
     private static final Edges EDGES = new Edges("EdgesOfFaultsTest");
     private static final String RIG = "patch 1 lamp at 1; patch 2 tint at 2; patch 3 head at 10; patch 5 lamp at 30; group 1 = 1 + 2;";
-    private static final String[] KINDS = {"lamp", "fine", "warm", "relay", "tint", "glow", "head", "spot", "roller"};
-    private static final int[] WIDTHS = {1, 2, 1, 1, 4, 3, 7, 8, 2};
 
     public static void main(String[] args) {
         tape();
@@ -86,7 +84,8 @@ public final class EdgesOfFaultsTest {
     private static void ends() {
         EDGES.sentence("1: the end, at its length, with which no statement goes on");
         LightDesk desk = Checks.desk(RIG);
-        String[] texts = {"live", "live ", "live\n\n\n", "1 @", "1 @ 5", "patch 7 lamp at 100 limit", "group", "group 1", "cue 5 up 3", "1 + ", "record 1 only",
+        String[] texts = {"live", "live ", "live\n\n\n", "1 @", "1 @ 5", "patch 7 lamp at 100 limit", "group", "group 1", "cue 5 up 3", "1 + ",
+            "record 1 only",
             "1", "all", "palette 1 = dim 5", "unpark", "event 1 =  "};
         for (String text : texts) {
             EDGES.faulty(desk, text + "^", 1);
@@ -103,7 +102,8 @@ public final class EdgesOfFaultsTest {
         String most = "1" + " home".repeat(118);
         EDGES.fine(desk, most + ";");
         EDGES.fine(desk, most + " ;" + most + ";\n" + most + ";");
-        EDGES.faulty(desk, 1, most + " home^;", most + " home ^;", most + " home ^home;", most + " home ^home home;", most + " home ^12345;", most + " home ^#",
+        EDGES.faulty(desk, 1, most + " home^;", most + " home ^;", most + " home ^home;", most + " home ^home home;", most + " home ^12345;",
+            most + " home ^#",
             most + " home ^abcdefghij;", most + " home^", most + " home  ^", most + " home ^5 @;");
         EDGES.sentence("the first token with which no statement goes on is ahead of the 121st one");
         EDGES.faulty(desk, 1, most + " ^5 home home;", "1 home ^5" + " home".repeat(130) + ";");
@@ -186,7 +186,8 @@ public final class EdgesOfFaultsTest {
         EDGES.fine(desk, "group 1 + 5 - 1 @ 6;");
         EDGES.fine(desk, "group 2 = 5;");
         EDGES.fine(desk, "group 1 home;");
-        EDGES.faulty(desk, 1, "group ^= 1;", "group 1 ^;", "group 1 ^thru 2 @ 5;", "group 1 + ^= 5;", "group 1 @ ^= 5;", "group 1 + group 2 ^= 5;", "1 ^= 5;");
+        EDGES.faulty(desk, 1, "group ^= 1;", "group 1 ^;", "group 1 ^thru 2 @ 5;", "group 1 + ^= 5;", "group 1 @ ^= 5;", "group 1 + group 2 ^= 5;",
+            "1 ^= 5;");
         EDGES.faulty(desk, "group ^3 @ 5;", 2);
         EDGES.fine(desk, "group 3 = 1;");
     }
@@ -194,12 +195,14 @@ public final class EdgesOfFaultsTest {
     private static void nothingThere() {
         EDGES.sentence("2: a unit alone that is not patched");
         LightDesk desk = Checks.desk(RIG);
-        EDGES.faulty(desk, 2, "^4 @ 5;", "^40 @ 5;", "1 + ^4 @ 5;", "1 - ^4 @ 5;", "unpatch ^4;", "unpatch 1 + ^6;", "group 5 = ^4;", "sub 1 with ^4 @ 5;",
+        EDGES.faulty(desk, 2, "^4 @ 5;", "^40 @ 5;", "1 + ^4 @ 5;", "1 - ^4 @ 5;", "unpatch ^4;", "unpatch 1 + ^6;", "group 5 = ^4;",
+            "sub 1 with ^4 @ 5;",
             "wave 1 = saw dim size 1 rate 1 spread 1 on ^4;", "all + ^4 @ 5;", "4 thru 4 + ^4 @ 5;");
         EDGES.sentence("a unit of N thru M may be one that is not patched");
         EDGES.fine(desk, "4 thru 6 @ 5; 40 thru 5 @ 5; 1 - 4 thru 4 @ 5; 4 thru 4 + 1 @ 5;");
         EDGES.sentence("2: a group without units");
-        EDGES.faulty(desk, 2, "group ^2 @ 5;", "group ^12 @ 5;", "1 + group ^2 @ 5;", "1 - group ^2 @ 5;", "unpatch group ^2;", "group 2 = group ^2;");
+        EDGES.faulty(desk, 2, "group ^2 @ 5;", "group ^12 @ 5;", "1 + group ^2 @ 5;", "1 - group ^2 @ 5;", "unpatch group ^2;",
+            "group 2 = group ^2;");
         EDGES.sentence("2: a group that has none left");
         EDGES.fine(desk, "group 2 = 5;");
         EDGES.fine(desk, "unpatch 5;");
@@ -212,28 +215,28 @@ public final class EdgesOfFaultsTest {
 
     private static void slotsBeyond() {
         EDGES.sentence("4: the unit's slots go beyond 200 (told at the N behind at)");
-        for (int i = 0; i < KINDS.length; i++) {
+        for (int i = 0; i < Edges.KINDS.length; i++) {
             LightDesk desk = new LightDesk();
-            int last = 201 - WIDTHS[i];
+            int last = 201 - Edges.WIDTHS[i];
             for (int first = last + 1; first <= 200; first++) {
-                EDGES.faulty(desk, "patch 1 " + KINDS[i] + " at ^" + first + ";", 4);
+                EDGES.faulty(desk, "patch 1 " + Edges.KINDS[i] + " at ^" + first + ";", 4);
             }
-            EDGES.faulty(desk, "patch 1 " + KINDS[i] + " at ^201;", 3);
-            EDGES.fine(desk, "patch 1 " + KINDS[i] + " at " + last + ";");
+            EDGES.faulty(desk, "patch 1 " + Edges.KINDS[i] + " at ^201;", 3);
+            EDGES.fine(desk, "patch 1 " + Edges.KINDS[i] + " at " + last + ";");
         }
     }
 
     private static void slotsOfOthers() {
         EDGES.sentence("no two units share a slot; 4: one is another unit's");
-        for (int i = 0; i < KINDS.length; i++) {
-            for (int k = 0; k < KINDS.length; k++) {
-                LightDesk desk = Checks.desk("patch 1 " + KINDS[i] + " at 100;");
-                int ahead = 100 - WIDTHS[k];
-                int behind = 100 + WIDTHS[i];
-                EDGES.faulty(desk, "patch 2 " + KINDS[k] + " at ^" + (ahead + 1) + ";", 4);
-                EDGES.faulty(desk, "patch 2 " + KINDS[k] + " at ^" + (behind - 1) + ";", 4);
-                EDGES.faulty(desk, "patch 2 " + KINDS[k] + " at ^100;", 4);
-                EDGES.fine(desk, "patch 2 " + KINDS[k] + " at " + ahead + "; patch 3 " + KINDS[k] + " at " + behind + ";");
+        for (int i = 0; i < Edges.KINDS.length; i++) {
+            for (int k = 0; k < Edges.KINDS.length; k++) {
+                LightDesk desk = Checks.desk("patch 1 " + Edges.KINDS[i] + " at 100;");
+                int ahead = 100 - Edges.WIDTHS[k];
+                int behind = 100 + Edges.WIDTHS[i];
+                EDGES.faulty(desk, "patch 2 " + Edges.KINDS[k] + " at ^" + (ahead + 1) + ";", 4);
+                EDGES.faulty(desk, "patch 2 " + Edges.KINDS[k] + " at ^" + (behind - 1) + ";", 4);
+                EDGES.faulty(desk, "patch 2 " + Edges.KINDS[k] + " at ^100;", 4);
+                EDGES.fine(desk, "patch 2 " + Edges.KINDS[k] + " at " + ahead + "; patch 3 " + Edges.KINDS[k] + " at " + behind + ";");
             }
         }
         EDGES.sentence("4: another unit's in the midst of its slots");
@@ -363,8 +366,10 @@ public final class EdgesOfFaultsTest {
     private static void textAheadOfOthers() {
         EDGES.sentence("1 is met as it is read, ahead of all others");
         LightDesk desk = Checks.desk(RIG, Edges.cues());
-        EDGES.faulty(desk, 1, "41 @ 5 ^5;", "4 @ 5 ^:", "1 - 1 @ 5 ^none;", "patch 1 lamp at 0 ^at;", "patch 6 lamp at 1 limit ^limit;", "cue 5 up 601 ^up 5;",
-            "copy 5 to 10 ^to;", "record 0 only ^only;", "update ^update;", "group 13 = 41^", "sneak 601 ^12345;", "delete 5 ^abcdefghij;", "event 11 = 5 cue 0 ^@;");
+        EDGES.faulty(desk, 1, "41 @ 5 ^5;", "4 @ 5 ^:", "1 - 1 @ 5 ^none;", "patch 1 lamp at 0 ^at;", "patch 6 lamp at 1 limit ^limit;",
+            "cue 5 up 601 ^up 5;",
+            "copy 5 to 10 ^to;", "record 0 only ^only;", "update ^update;", "group 13 = 41^", "sneak 601 ^12345;", "delete 5 ^abcdefghij;",
+            "event 11 = 5 cue 0 ^@;");
     }
 
     private static void fromTheLeft() {
@@ -404,7 +409,8 @@ public final class EdgesOfFaultsTest {
     private static void numberAheadOfOthers() {
         EDGES.sentence("3: of a unit (ahead of 2, 7), group (ahead of 2)");
         LightDesk desk = Checks.desk(Edges.lamps());
-        EDGES.faulty(desk, 3, "^0 @ 5;", "^41 @ 5;", "patch ^0 lamp at 100;", "patch ^41 lamp at 100;", "group ^0 @ 5;", "group ^13 @ 5;", "1 - group ^13 @ 5;",
+        EDGES.faulty(desk, 3, "^0 @ 5;", "^41 @ 5;", "patch ^0 lamp at 100;", "patch ^41 lamp at 100;", "group ^0 @ 5;", "group ^13 @ 5;",
+            "1 - group ^13 @ 5;",
             "1 - ^41 @ 5;", "unpatch ^0;");
     }
 
@@ -429,7 +435,8 @@ public final class EdgesOfFaultsTest {
         EDGES.sentence("a whole statement alone does what it does, though many of its parts are ahead of the fault");
         LightDesk desk = Checks.desk(RIG, "1 @ 5; record 5 up 7; palette 1 = dim 5; sub 1 with 1 @ 5; wave 1 = saw dim size 1 rate 1 spread 1 on 1;");
         EDGES.faulty(desk, 3, "1 @ 6 red 7 home palette ^0;", "palette 1 = dim 6 red ^1001;", "cue 5 up 8 down ^601;", "cue 6 up ^601;",
-            "record 5 up 8 stay link ^0;", "sub 1 with all @ ^1001;", "event 1 = 5 cue ^0;", "park 5 @ ^256;", "patch 6 lamp at 100 limit 5 curve ^4;");
+            "record 5 up 8 stay link ^0;", "sub 1 with all @ ^1001;", "event 1 = 5 cue ^0;", "park 5 @ ^256;",
+            "patch 6 lamp at 100 limit 5 curve ^4;");
         EDGES.faulty(desk, 2, "unpatch 1 + 2 + ^4;", "group 1 = 5 + ^4;", "wave 1 = step red size 5 rate 5 spread 5 on 2 + ^4;");
     }
 }

@@ -7,7 +7,6 @@ public final class EdgesOfNumbersTest {
     /** One unit of each kind, each a slot away from the next. */
     private static final String RIG = "patch 1 lamp at 1; patch 2 fine at 3; patch 3 warm at 6; patch 4 relay at 8; patch 5 tint at 10;"
         + "patch 6 glow at 15; patch 7 head at 19; patch 8 spot at 27; patch 9 roller at 36;";
-    private static final String[] PARAMETERS = {"dim", "red", "green", "blue", "pan", "tilt", "wheel", "iris", "roll"};
     /** For each parameter a unit of the rig that has it. */
     private static final int[] HAVING = {1, 5, 6, 5, 7, 8, 7, 8, 9};
 
@@ -151,12 +150,13 @@ public final class EdgesOfNumbersTest {
 
     private static void levelsOfParameters() {
         EDGES.sentence("3: a number that can't be, of a level, of each parameter by its name");
-        for (int i = 0; i < PARAMETERS.length; i++) {
+        for (int i = 0; i < Edges.PARAMETERS.length; i++) {
             int parameter = i;
             int unit = HAVING[i];
-            within("", "palette 1 = " + PARAMETERS[i] + " ?;", 0, 1000, (desk, n) -> desk.palette(1, parameter) == n);
-            within(RIG, unit + " " + PARAMETERS[i] + " ?;", 0, 1000, (desk, n) -> desk.held(unit, parameter) == n && desk.level(unit, parameter) == n);
-            within(RIG, unit + " " + PARAMETERS[i] + " - ?;", 0, 1000, (desk, n) -> desk.held(unit, parameter) >= 0);
+            within("", "palette 1 = " + Edges.PARAMETERS[i] + " ?;", 0, 1000, (desk, n) -> desk.palette(1, parameter) == n);
+            within(RIG, unit + " " + Edges.PARAMETERS[i] + " ?;", 0, 1000,
+                (desk, n) -> desk.held(unit, parameter) == n && desk.level(unit, parameter) == n);
+            within(RIG, unit + " " + Edges.PARAMETERS[i] + " - ?;", 0, 1000, (desk, n) -> desk.held(unit, parameter) >= 0);
         }
     }
 

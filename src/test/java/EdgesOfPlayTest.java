@@ -72,7 +72,8 @@ public final class EdgesOfPlayTest {
     private static void delays() {
         EDGES.sentence("its begin the FADE CLOCK and DELAY");
         for (int delay : new int[] {0, 1, 5, 600}) {
-            LightDesk desk = Checks.desk(RIG, "1 @ 10; record 1; 1 @ 1000; record 2 up 10 delay " + delay + "; 1 @ 10; record 3 delay " + delay + "; clear;");
+            LightDesk desk = Checks.desk(RIG,
+                "1 @ 10; record 1; 1 @ 1000; record 2 up 10 delay " + delay + "; 1 @ 10; record 3 delay " + delay + "; clear;");
             desk.go();
             desk.go();
             if (delay > 0) {
@@ -98,7 +99,8 @@ public final class EdgesOfPlayTest {
 
     private static void upOrDown() {
         EDGES.sentence("its time of dim UP if g is above that level, else DOWN, of others MOVE");
-        LightDesk desk = Checks.desk(RIG, "1 @ 500; record 1; 1 @ 501; record 2 up 100 down 50 move 20; 1 @ 500; record 3 up 100 down 50 move 20; clear;");
+        LightDesk desk = Checks.desk(RIG,
+            "1 @ 500; record 1; 1 @ 501; record 2 up 100 down 50 move 20; 1 @ 500; record 3 up 100 down 50 move 20; clear;");
         desk.go();
         desk.go();
         desk.advance(99);
@@ -159,7 +161,8 @@ public final class EdgesOfPlayTest {
     }
 
     private static void dark() {
-        EDGES.sentence("A unit is DARK if its CUE LEVEL and its GOAL of dim are 0 as this begins; for all parameters but dim: DELAY and times count as 0");
+        EDGES.sentence("A unit is DARK if its CUE LEVEL and its GOAL of dim are 0 as this begins; "
+            + "for all parameters but dim: DELAY and times count as 0");
         LightDesk desk = Checks.desk(RIG, "3 @ 1000 pan 0; record 1 up 10 move 10 delay 5; clear;");
         desk.go();
         EDGES.same("dark: its pan at once", desk.level(3, 4), 0);
@@ -174,7 +177,8 @@ public final class EdgesOfPlayTest {
         one.advance(5);
         EDGES.same("half", one.level(3, 4), 750);
         EDGES.sentence("DARK by the CUE LEVEL, whatever the programmer, subs and waves give");
-        LightDesk lit = Checks.desk(RIG, "3 pan 1000; record 1 move 10; clear; sub 1 with 3 @ 1000; wave 1 = saw dim size 1000 rate 999 spread 0 on 3; 3 @ 1000;");
+        LightDesk lit = Checks.desk(RIG,
+            "3 pan 1000; record 1 move 10; clear; sub 1 with 3 @ 1000; wave 1 = saw dim size 1000 rate 999 spread 0 on 3; 3 @ 1000;");
         lit.bump(1, true);
         lit.run(1, true);
         lit.advance(1);
@@ -196,7 +200,8 @@ public final class EdgesOfPlayTest {
         delayed.go();
         EDGES.same("moves", delayed.level(3, 4), 500);
         EDGES.sentence("DARK: its GOAL is 0, its CUE LEVEL not: not dark");
-        LightDesk falling = Checks.desk(RIG, "3 @ 500; record 1; 3 @ 0; record 2 down 10; 3 pan 1000; record 3 move 10; 3 pan 0; record 4 move 10; clear;");
+        LightDesk falling = Checks.desk(RIG,
+            "3 @ 500; record 1; 3 @ 0; record 2 down 10; 3 pan 1000; record 3 move 10; 3 pan 0; record 4 move 10; clear;");
         falling.go();
         falling.go();
         falling.advance(9);
@@ -258,7 +263,8 @@ public final class EdgesOfPlayTest {
     }
 
     private static void nextAndLink() {
-        EDGES.sentence("NEXT is the cue of the number LINK of the cue CURRENT, if there are this cue, its LINK, and that one; else the cue of the least number above CURRENT");
+        EDGES.sentence("NEXT is the cue of the number LINK of the cue CURRENT, if there are this cue, its LINK, and that one; "
+            + "else the cue of the least number above CURRENT");
         LightDesk desk = Checks.desk("cue 1; cue 2; cue 998 link 1; cue 999 link 2;");
         int[] due = {1, 2, 998, 1, 2, 998};
         for (int number : due) {
@@ -486,7 +492,8 @@ public final class EdgesOfPlayTest {
             EDGES.same("back at 0", desk.unit(40, 6), 0);
         }
         EDGES.sentence("of each patched roller: others have no POSITION but 0");
-        LightDesk other = Checks.desk("patch 1 lamp at 1; patch 2 spot at 10; patch 3 roller at 30; wave 1 = step roll size 1000 rate 500 spread 0 on all; all @ full;");
+        LightDesk other = Checks.desk("patch 1 lamp at 1; patch 2 spot at 10; patch 3 roller at 30; "
+            + "wave 1 = step roll size 1000 rate 500 spread 0 on all; all @ full;");
         other.run(1, true);
         other.advance(1);
         EDGES.same("a lamp", other.unit(1, 6), 0);
@@ -505,7 +512,8 @@ public final class EdgesOfPlayTest {
     }
 
     private static void behindTexts() {
-        EDGES.sentence("Behind each text: wherever the LEVEL of what is TRACKED in CURRENT is not the GOAL, it is the GOAL, and the CUE LEVEL at once");
+        EDGES.sentence("Behind each text: wherever the LEVEL of what is TRACKED in CURRENT is not the GOAL, it is the GOAL, "
+            + "and the CUE LEVEL at once");
         LightDesk desk = Checks.desk(RIG, "1 @ 1000; 3 pan 1000; record 5 up 100 move 100; clear;");
         desk.go();
         desk.advance(50);

@@ -51,7 +51,8 @@ public final class EdgesOfSavingTest {
             EDGES.same("patch" + told[i], Checks.saved(desk), "patch 7 roller at 199" + due[i] + ";\n");
         }
         EDGES.sentence("for each patched unit, by numbers");
-        LightDesk desk = Checks.desk("patch 40 lamp at 1; patch 10 fine at 101; patch 2 warm at 100; patch 1 relay at 98; patch 9 glow at 9; unpatch 2;");
+        LightDesk desk = Checks.desk("patch 40 lamp at 1; patch 10 fine at 101; patch 2 warm at 100; patch 1 relay at 98; patch 9 glow at 9; "
+            + "unpatch 2;");
         EDGES.same("saved", Checks.saved(desk), "patch 1 relay at 98;\npatch 9 glow at 9;\npatch 10 fine at 101;\npatch 40 lamp at 1;\n");
         String[] kinds = {"lamp", "fine", "warm", "relay", "tint", "glow", "head", "spot", "roller"};
         for (String kind : kinds) {
@@ -216,9 +217,11 @@ public final class EdgesOfSavingTest {
     private static void readAgain() {
         EDGES.sentence("all can be saved as a text and read again");
         LightDesk desk = Checks.desk("patch 1 lamp at 1 limit 0; patch 2 glow at 2 curve 3; patch 3 head at 10 invert; patch 40 spot at 193 swap;"
-            + "group 1 = all; group 12 = 40 thru 1; palette 1 = dim 0; palette 12 = roll 1000 red 1; sub 1 with 1 @ 0; sub 8 masters; sub 8 with 40 @ 1000;",
+            + "group 1 = all; group 12 = 40 thru 1; palette 1 = dim 0; palette 12 = roll 1000 red 1; sub 1 with 1 @ 0; sub 8 masters; "
+            + "sub 8 with 40 @ 1000;",
             "wave 4 = step roll size 1000 rate 1000 spread 1000 on 40 + 1; wave 1 = saw dim size 0 rate 0 spread 0 on 2;",
-            "all home; 2 red from 12 @ from 1; record 1 up 600 down 1 move 2 delay 3 follow 0 link 999; clear; cue 2; 1 @ full; record 999; clear; park 200 @ 255; park 1 @ 0; event 10 = 9999 cue 999; event 1 = 0 cue 1;");
+            "all home; 2 red from 12 @ from 1; record 1 up 600 down 1 move 2 delay 3 follow 0 link 999; clear; cue 2; 1 @ full; record 999; "
+            + "clear; park 200 @ 255; park 1 @ 0; event 10 = 9999 cue 999; event 1 = 0 cue 1;");
         String before = Picture.of(desk).replaceAll("state 5 0: \\d+", "");
         String text = Checks.saved(desk);
         LightDesk other = new LightDesk();

@@ -1,14 +1,9 @@
 /** "Terms" 1 and 5: kinds and their slots, masters, levels, waves, what is shown, and bytes, each at its bounds. */
 public final class EdgesOfSightTest {
     private static final Edges EDGES = new Edges("EdgesOfSightTest");
-    private static final String[] KINDS = {"lamp", "fine", "warm", "relay", "tint", "glow", "head", "spot", "roller"};
-    private static final String[] PARAMETERS = {"dim", "red", "green", "blue", "pan", "tilt", "wheel", "iris", "roll"};
-    private static final String[] HAS = {"dim", "dim", "dim", "dim", "dim red green blue", "dim red green blue", "dim pan tilt wheel",
-        "dim pan tilt wheel iris", "dim roll"};
     /** The slots of each kind: whole, or h and l for the first and the second of two. */
     private static final String[] SLOTS = {"dim", "dim.h dim.l", "dim", "dim", "dim red green blue", "red green blue",
         "dim.h dim.l pan.h pan.l tilt.h tilt.l wheel", "dim.h dim.l pan.h pan.l tilt.h tilt.l wheel iris", "dim roll"};
-    private static final int[] HOME = {0, 1000, 1000, 1000, 500, 500, 0, 1000, 0};
 
     public static void main(String[] args) {
         parametersOfKinds();
@@ -36,7 +31,7 @@ public final class EdgesOfSightTest {
 
     private static int parameterOf(String name) {
         for (int i = 0; i < 9; i++) {
-            if (PARAMETERS[i].equals(name)) {
+            if (Edges.PARAMETERS[i].equals(name)) {
                 return i;
             }
         }
@@ -54,11 +49,11 @@ public final class EdgesOfSightTest {
     private static void parametersOfKinds() {
         EDGES.sentence("KINDS, with the parameters that a unit of it HAS; PARAMETERS with their HOME levels");
         for (int i = 0; i < 9; i++) {
-            LightDesk desk = Checks.desk("patch 7 " + KINDS[i] + " at 100;");
+            LightDesk desk = Checks.desk("patch 7 " + Edges.KINDS[i] + " at 100;");
             for (int parameter = 0; parameter < 9; parameter++) {
-                boolean has = (" " + HAS[i] + " ").contains(" " + PARAMETERS[parameter] + " ");
-                EDGES.same(KINDS[i] + " " + PARAMETERS[parameter], desk.level(7, parameter), has ? HOME[parameter] : -2);
-                EDGES.same(KINDS[i] + " tracked " + PARAMETERS[parameter], desk.tracked(0, 7, parameter), HOME[parameter]);
+                boolean has = (" " + Edges.HAS[i] + " ").contains(" " + Edges.PARAMETERS[parameter] + " ");
+                EDGES.same(Edges.KINDS[i] + " " + Edges.PARAMETERS[parameter], desk.level(7, parameter), has ? Edges.HOME[parameter] : -2);
+                EDGES.same(Edges.KINDS[i] + " tracked " + Edges.PARAMETERS[parameter], desk.tracked(0, 7, parameter), Edges.HOME[parameter]);
             }
         }
     }
@@ -67,7 +62,8 @@ public final class EdgesOfSightTest {
         EDGES.sentence("KINDS, in the order of its SLOTS (one each, two where 2 stands)");
         int[] levels = {0, 111, 222, 333, 444, 555, 666, 777, 888};
         for (int i = 0; i < 9; i++) {
-            LightDesk desk = Checks.desk("patch 7 " + KINDS[i] + " at 100; 7 @ full red 111 green 222 blue 333 pan 444 tilt 555 wheel 666 iris 777 roll 888;");
+            LightDesk desk = Checks.desk("patch 7 " + Edges.KINDS[i] + " at 100; "
+                + "7 @ full red 111 green 222 blue 333 pan 444 tilt 555 wheel 666 iris 777 roll 888;");
             desk.advance(30);
             String[] slots = SLOTS[i].split(" ");
             for (int k = 0; k < slots.length; k++) {
@@ -75,10 +71,10 @@ public final class EdgesOfSightTest {
                 int parameter = parameterOf(name[0]);
                 int level = parameter == 0 ? 1000 : levels[parameter];
                 int due = name.length == 1 ? one(level) : name[1].equals("h") ? two(level) / 256 : two(level) % 256;
-                EDGES.same(KINDS[i] + " slot " + slots[k], desk.slot(100 + k), due);
+                EDGES.same(Edges.KINDS[i] + " slot " + slots[k], desk.slot(100 + k), due);
             }
-            EDGES.same(KINDS[i] + " ahead of its first slot", desk.slot(99), 0);
-            EDGES.same(KINDS[i] + " behind its last slot", desk.slot(100 + slots.length), 0);
+            EDGES.same(Edges.KINDS[i] + " ahead of its first slot", desk.slot(99), 0);
+            EDGES.same(Edges.KINDS[i] + " behind its last slot", desk.slot(100 + slots.length), 0);
         }
     }
 
@@ -86,24 +82,26 @@ public final class EdgesOfSightTest {
         EDGES.sentence("its slots lie one behind the other: at the first and at the last of all slots");
         for (int i = 0; i < 9; i++) {
             int width = SLOTS[i].split(" ").length;
-            LightDesk desk = Checks.desk("patch 1 " + KINDS[i] + " at 1; patch 40 " + KINDS[i] + " at " + (201 - width) + "; all @ full;");
-            EDGES.same(KINDS[i] + " slot 1", desk.slot(1), 255);
-            EDGES.same(KINDS[i] + " behind it", desk.slot(1 + width), 0);
-            EDGES.same(KINDS[i] + " ahead of the last one", desk.slot(200 - width), 0);
-            EDGES.same(KINDS[i] + " its first slot", desk.slot(201 - width), 255);
+            LightDesk desk = Checks.desk("patch 1 " + Edges.KINDS[i] + " at 1; patch 40 " + Edges.KINDS[i] + " at " + (201 - width) + "; all @ full;");
+            EDGES.same(Edges.KINDS[i] + " slot 1", desk.slot(1), 255);
+            EDGES.same(Edges.KINDS[i] + " behind it", desk.slot(1 + width), 0);
+            EDGES.same(Edges.KINDS[i] + " ahead of the last one", desk.slot(200 - width), 0);
+            EDGES.same(Edges.KINDS[i] + " its first slot", desk.slot(201 - width), 255);
         }
     }
 
     private static void bytesOfLevels() {
-        EDGES.sentence("A level v in one slot is CUT(v * 255 + 500, 1000); in two: w = CUT(v * 65535 + 500, 1000), CUT(w, 256) in the first one, the rest in the second");
-        LightDesk desk = Checks.desk("patch 1 lamp at 1; patch 2 fine at 2; patch 3 head at 4; patch 4 roller at 11; patch 5 spot at 21; patch 6 tint at 31;");
+        EDGES.sentence("A level v in one slot is CUT(v * 255 + 500, 1000); in two: w = CUT(v * 65535 + 500, 1000), CUT(w, 256) in the first one, "
+            + "the rest in the second");
+        LightDesk desk = Checks.desk("patch 1 lamp at 1; patch 2 fine at 2; patch 3 head at 4; patch 4 roller at 11; patch 5 spot at 21; "
+            + "patch 6 tint at 31;");
         int[][] rows = {{0, 0, 0}, {1, 0, 66}, {2, 1, 131}, {3, 1, 197}, {4, 1, 262}, {5, 1, 328}, {6, 2, 393}, {499, 127, 32702}, {500, 128, 32768},
             {501, 128, 32833}, {998, 254, 65404}, {999, 255, 65469}, {1000, 255, 65535}};
         int[] whole = {1, 10, 11, 12, 27, 31, 32, 33, 34};
         int[] firstOfTwo = {2, 4, 6, 8, 21, 23, 25};
         for (int[] row : rows) {
             StringBuilder text = new StringBuilder("all");
-            for (String name : PARAMETERS) {
+            for (String name : Edges.PARAMETERS) {
                 text.append(' ').append(name).append(' ').append(row[0]);
             }
             EDGES.fine(desk, text + ";");
@@ -144,7 +142,8 @@ public final class EdgesOfSightTest {
     }
 
     private static void pansAndTilts() {
-        EDGES.sentence("pan, tilt: their LEVELS, of a unit that is SWAPPED the other one's; then, in pan's slots of one that is INVERTED, 1000 less that");
+        EDGES.sentence("pan, tilt: their LEVELS, of a unit that is SWAPPED the other one's; then, in pan's slots of one that is INVERTED, "
+            + "1000 less that");
         String[] options = {"", " invert", " swap", " invert swap"};
         int[][] rows = {{0, 1000}, {1000, 0}, {1, 2}, {500, 500}, {999, 1}};
         for (int i = 0; i < 4; i++) {
@@ -224,8 +223,10 @@ public final class EdgesOfSightTest {
     }
 
     private static void subsThatAdd() {
-        EDGES.sentence("of dim, if the programmer has none there, the greatest of that and of what each sub that ADDS has for the unit, times its FADER (1000 with BUMP) / 1000, CUT");
-        LightDesk desk = Checks.desk("patch 1 tint at 1; patch 2 tint at 5; 1 @ 300; record 1; clear; sub 1 with 1 @ 999; sub 8 with 1 @ 600; sub 2 with 1 @ 0;");
+        EDGES.sentence("of dim, if the programmer has none there, the greatest of that and of what each sub that ADDS has for the unit, "
+            + "times its FADER (1000 with BUMP) / 1000, CUT");
+        LightDesk desk = Checks.desk("patch 1 tint at 1; patch 2 tint at 5; 1 @ 300; record 1; clear; sub 1 with 1 @ 999; sub 8 with 1 @ 600; "
+            + "sub 2 with 1 @ 0;");
         desk.go();
         int[][] rows = {{0, 0, 300}, {1, 0, 300}, {300, 0, 300}, {301, 0, 300}, {302, 0, 301}, {999, 0, 998}, {1000, 0, 999}, {0, 500, 300},
             {0, 502, 301}, {500, 1000, 600}, {601, 1000, 600}, {602, 1000, 601}};
@@ -252,10 +253,12 @@ public final class EdgesOfSightTest {
 
     private static void subsThatMaster() {
         EDGES.sentence("for each sub that MASTERS and has a level for the unit, by numbers, it becomes CUT(d * its FADER (1000 with BUMP), 1000)");
-        LightDesk desk = Checks.desk("patch 1 lamp at 1; patch 2 lamp at 2; all @ 999; sub 1 with 1 @ 0; sub 8 with 1 @ 1000; sub 1 masters; sub 2 masters; sub 8 masters;");
+        LightDesk desk = Checks.desk("patch 1 lamp at 1; patch 2 lamp at 2; all @ 999; sub 1 with 1 @ 0; sub 8 with 1 @ 1000; sub 1 masters; "
+            + "sub 2 masters; sub 8 masters;");
         EDGES.same("FADERS of 0", desk.shown(1), 0);
         EDGES.same("a unit of none", desk.shown(2), 999);
-        int[][] rows = {{1000, 1000, 999}, {999, 1000, 998}, {999, 999, 997}, {1000, 0, 0}, {0, 1000, 0}, {1, 1000, 0}, {2, 1000, 1}, {500, 500, 249}};
+        int[][] rows = {{1000, 1000, 999}, {999, 1000, 998}, {999, 999, 997}, {1000, 0, 0}, {0, 1000, 0}, {1, 1000, 0}, {2, 1000, 1}, {500, 500,
+            249}};
         for (int[] row : rows) {
             desk.fader(1, row[0]);
             desk.fader(8, row[1]);
@@ -309,7 +312,8 @@ public final class EdgesOfSightTest {
         int[] turns = {0, 1, 499, 500, 501, 998, 999};
         for (int turn : turns) {
             for (int size : new int[] {0, 1, 999, 1000}) {
-                LightDesk desk = Checks.desk("patch 1 lamp at 1; patch 2 lamp at 2; wave 1 = peak dim size " + size + " rate " + turn + " spread 0 on 1;"
+                LightDesk desk = Checks.desk("patch 1 lamp at 1; patch 2 lamp at 2; "
+                    + "wave 1 = peak dim size " + size + " rate " + turn + " spread 0 on 1;"
                     + "wave 2 = step dim size " + size + " rate " + turn + " spread 0 on 2;");
                 desk.run(1, true);
                 desk.run(2, true);
@@ -373,13 +377,15 @@ public final class EdgesOfSightTest {
 
     private static void wavesOfWhom() {
         EDGES.sentence("of this parameter, with this unit in its row");
-        LightDesk desk = Checks.desk("patch 1 spot at 1; patch 2 tint at 20; patch 3 roller at 30; patch 4 lamp at 40; all @ 0 red 0 green 0 blue 0 pan 0 tilt 0 wheel 0 iris 0 roll 0;");
+        LightDesk desk = Checks.desk("patch 1 spot at 1; patch 2 tint at 20; patch 3 roller at 30; patch 4 lamp at 40; "
+            + "all @ 0 red 0 green 0 blue 0 pan 0 tilt 0 wheel 0 iris 0 roll 0;");
         desk.run(1, true);
         int[] having = {4, 2, 2, 2, 1, 1, 1, 1, 3};
         for (int parameter = 0; parameter < 9; parameter++) {
-            EDGES.fine(desk, "wave 1 = step " + PARAMETERS[parameter] + " size 70 rate 0 spread 1000 on 4 thru 1 - " + having[parameter] + " + " + having[parameter] + ";");
+            EDGES.fine(desk, "wave 1 = step " + Edges.PARAMETERS[parameter] + " size 70 rate 0 spread 1000 on 4 thru 1 - " + having[parameter] + " + "
+                + "" + having[parameter] + ";");
             for (int other = 0; other < 9; other++) {
-                EDGES.same("wave of " + PARAMETERS[parameter] + ", seen of " + PARAMETERS[other], desk.level(having[other], other),
+                EDGES.same("wave of " + Edges.PARAMETERS[parameter] + ", seen of " + Edges.PARAMETERS[other], desk.level(having[other], other),
                     other == parameter ? 70 : 0);
             }
         }
@@ -393,7 +399,8 @@ public final class EdgesOfSightTest {
     private static void grandAndLimit() {
         EDGES.sentence("SHOWN: d is CUT(LEVEL of dim * GRAND, 1000); the lesser of that and LIMIT");
         int[][] rows = {{1000, 1000, 1000, 1000}, {1000, 999, 1000, 999}, {1000, 1000, 999, 999}, {999, 999, 1000, 998}, {500, 1000, 499, 499},
-            {500, 1000, 500, 500}, {500, 1000, 501, 500}, {1000, 0, 1000, 0}, {0, 1000, 1000, 0}, {1000, 1000, 0, 0}, {1000, 1, 1000, 1}, {999, 1, 1000, 0},
+            {500, 1000, 500, 500}, {500, 1000, 501, 500}, {1000, 0, 1000, 0}, {0, 1000, 1000, 0}, {1000, 1000, 0, 0}, {1000, 1, 1000, 1}, {999, 1,
+                1000, 0},
             {1000, 500, 400, 400}, {1000, 300, 400, 300}};
         for (int[] row : rows) {
             LightDesk desk = Checks.desk("patch 1 lamp at 1 limit " + row[2] + "; 1 @ " + row[0] + ";");
@@ -416,7 +423,8 @@ public final class EdgesOfSightTest {
             EDGES.same("CURVE 3 of " + row[0], desk.shown(4), row[3]);
         }
         EDGES.sentence("by the CURVE, behind the LIMIT");
-        LightDesk limited = Checks.desk("patch 1 lamp at 1 limit 500 curve 1; patch 2 lamp at 2 limit 500 curve 2; patch 3 lamp at 3 limit 1 curve 3; patch 4 lamp at 4 limit 0 curve 3; all @ full;");
+        LightDesk limited = Checks.desk("patch 1 lamp at 1 limit 500 curve 1; patch 2 lamp at 2 limit 500 curve 2; "
+            + "patch 3 lamp at 3 limit 1 curve 3; patch 4 lamp at 4 limit 0 curve 3; all @ full;");
         int[] due = {250, 750, 1000, 0};
         for (int unit = 1; unit <= 4; unit++) {
             EDGES.same("unit " + unit, limited.shown(unit), due[unit - 1]);
@@ -425,8 +433,10 @@ public final class EdgesOfSightTest {
 
     private static void warmAndRelay() {
         EDGES.sentence("Then of a warm unit: 30 at least, but with BLACK; of a relay 1000 if that is 500 or more, else 0");
-        LightDesk desk = Checks.desk("patch 1 warm at 1; patch 2 relay at 2; patch 3 warm at 3 curve 1; patch 4 relay at 4 curve 1; patch 5 warm at 5 limit 7; patch 6 relay at 6 limit 499;");
-        int[][] rows = {{0, 30, 0, 30, 0}, {29, 30, 0, 30, 0}, {30, 30, 0, 30, 0}, {31, 31, 0, 30, 0}, {499, 499, 0, 249, 0}, {500, 500, 1000, 250, 0},
+        LightDesk desk = Checks.desk("patch 1 warm at 1; patch 2 relay at 2; patch 3 warm at 3 curve 1; patch 4 relay at 4 curve 1; "
+            + "patch 5 warm at 5 limit 7; patch 6 relay at 6 limit 499;");
+        int[][] rows = {{0, 30, 0, 30, 0}, {29, 30, 0, 30, 0}, {30, 30, 0, 30, 0}, {31, 31, 0, 30, 0}, {499, 499, 0, 249, 0}, {500, 500, 1000, 250,
+            0},
             {707, 707, 1000, 499, 0}, {708, 708, 1000, 501, 1000}, {1000, 1000, 1000, 1000, 1000}};
         for (int[] row : rows) {
             EDGES.fine(desk, "all @ " + row[0] + ";");
@@ -449,7 +459,7 @@ public final class EdgesOfSightTest {
         EDGES.sentence("0 with BLACK");
         StringBuilder text = new StringBuilder();
         for (int i = 0; i < 9; i++) {
-            text.append("patch ").append(i + 1).append(' ').append(KINDS[i]).append(" at ").append(1 + i * 10).append(" curve 3;");
+            text.append("patch ").append(i + 1).append(' ').append(Edges.KINDS[i]).append(" at ").append(1 + i * 10).append(" curve 3;");
         }
         LightDesk desk = Checks.desk(text.toString(), "all @ full;");
         desk.black(true);

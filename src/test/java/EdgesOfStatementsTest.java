@@ -2,11 +2,6 @@
 public final class EdgesOfStatementsTest {
     private static final Edges EDGES = new Edges("EdgesOfStatementsTest");
     private static final String RIG = "patch 1 lamp at 1; patch 2 tint at 2; patch 3 head at 10; patch 4 spot at 20; patch 5 roller at 30;";
-    private static final String[] KINDS = {"lamp", "fine", "warm", "relay", "tint", "glow", "head", "spot", "roller"};
-    private static final String[] PARAMETERS = {"dim", "red", "green", "blue", "pan", "tilt", "wheel", "iris", "roll"};
-    private static final String[] HAS = {"dim", "dim", "dim", "dim", "dim red green blue", "dim red green blue", "dim pan tilt wheel",
-        "dim pan tilt wheel iris", "dim roll"};
-    private static final int[] HOME = {0, 1000, 1000, 1000, 500, 500, 0, 1000, 0};
 
     public static void main(String[] args) {
         plusOfSets();
@@ -105,11 +100,11 @@ public final class EdgesOfStatementsTest {
     private static void patching() {
         EDGES.sentence("patch: the unit is patched (LIMIT 1000, CURVE 0, if not told); its POSITION is 0");
         LightDesk desk = new LightDesk();
-        for (int i = 0; i < KINDS.length; i++) {
-            EDGES.fine(desk, "patch " + (i + 1) + " " + KINDS[i] + " at " + (1 + i * 10) + ";");
+        for (int i = 0; i < Edges.KINDS.length; i++) {
+            EDGES.fine(desk, "patch " + (i + 1) + " " + Edges.KINDS[i] + " at " + (1 + i * 10) + ";");
             int[] due = {i, 1 + i * 10, 1000, 0, 0, 0, 0};
             for (int what = 0; what < due.length; what++) {
-                EDGES.same(KINDS[i] + " " + what, desk.unit(i + 1, what), due[what]);
+                EDGES.same(Edges.KINDS[i] + " " + what, desk.unit(i + 1, what), due[what]);
             }
         }
         EDGES.fine(desk, "9 roll full;");
@@ -177,24 +172,25 @@ public final class EdgesOfStatementsTest {
     private static void parametersThatAUnitHasNot() {
         EDGES.sentence("a parameter that a unit has not is passed over");
         String[] whats = {" 5", " full", " from 1", " 5 thru 7", " + 5", " - 5"};
-        for (int i = 0; i < KINDS.length; i++) {
-            LightDesk desk = Checks.desk("patch 7 " + KINDS[i] + " at 1; palette 1 = dim 7; palette 2 = dim 1 red 1 green 1 blue 1 pan 1 tilt 1 wheel 1 iris 1 roll 1;");
-            int count = HAS[i].split(" ").length;
+        for (int i = 0; i < Edges.KINDS.length; i++) {
+            LightDesk desk = Checks.desk("patch 7 " + Edges.KINDS[i] + " at 1; palette 1 = dim 7; "
+                + "palette 2 = dim 1 red 1 green 1 blue 1 pan 1 tilt 1 wheel 1 iris 1 roll 1;");
+            int count = Edges.HAS[i].split(" ").length;
             for (int parameter = 0; parameter < 9; parameter++) {
-                boolean has = (" " + HAS[i] + " ").contains(" " + PARAMETERS[parameter] + " ");
+                boolean has = (" " + Edges.HAS[i] + " ").contains(" " + Edges.PARAMETERS[parameter] + " ");
                 for (String what : whats) {
-                    EDGES.fine(desk, "7 " + PARAMETERS[parameter] + what + ";");
-                    EDGES.same(KINDS[i] + " " + PARAMETERS[parameter] + what, desk.state(7), has ? 1 : 0);
-                    EDGES.same(KINDS[i] + " " + PARAMETERS[parameter] + what, desk.held(7, parameter) != -1 ? 1 : 0, has ? 1 : 0);
+                    EDGES.fine(desk, "7 " + Edges.PARAMETERS[parameter] + what + ";");
+                    EDGES.same(Edges.KINDS[i] + " " + Edges.PARAMETERS[parameter] + what, desk.state(7), has ? 1 : 0);
+                    EDGES.same(Edges.KINDS[i] + " " + Edges.PARAMETERS[parameter] + what, desk.held(7, parameter) != -1 ? 1 : 0, has ? 1 : 0);
                     EDGES.fine(desk, "clear;");
                 }
             }
             EDGES.fine(desk, "7 home;");
-            EDGES.same(KINDS[i] + " home", desk.state(7), count);
+            EDGES.same(Edges.KINDS[i] + " home", desk.state(7), count);
             EDGES.fine(desk, "clear; 7 palette 2;");
-            EDGES.same(KINDS[i] + " palette", desk.state(7), count);
+            EDGES.same(Edges.KINDS[i] + " palette", desk.state(7), count);
             EDGES.fine(desk, "7 release;");
-            EDGES.same(KINDS[i] + " release", desk.state(7), 0);
+            EDGES.same(Edges.KINDS[i] + " release", desk.state(7), 0);
         }
         EDGES.sentence("@ is dim");
         LightDesk desk = Checks.desk(RIG, "3 @ 5;");
@@ -281,19 +277,20 @@ public final class EdgesOfStatementsTest {
 
     private static void fromPalettes() {
         EDGES.sentence("FROM a palette: its LEVEL is then what that palette has for that parameter, HOME if it has none");
-        LightDesk desk = Checks.desk("patch 1 spot at 1; patch 2 tint at 20; patch 3 roller at 30;", "all dim from 3 red from 3 green from 3 blue from 3 pan from 3 tilt from 3 wheel from 3 iris from 3 roll from 3;");
+        LightDesk desk = Checks.desk("patch 1 spot at 1; patch 2 tint at 20; patch 3 roller at 30;",
+            "all dim from 3 red from 3 green from 3 blue from 3 pan from 3 tilt from 3 wheel from 3 iris from 3 roll from 3;");
         int[] having = {1, 2, 2, 2, 1, 1, 1, 1, 3};
         for (int parameter = 0; parameter < 9; parameter++) {
             EDGES.same("held " + parameter, desk.held(having[parameter], parameter), 2003);
-            EDGES.same("without levels " + parameter, desk.level(having[parameter], parameter), HOME[parameter]);
+            EDGES.same("without levels " + parameter, desk.level(having[parameter], parameter), Edges.HOME[parameter]);
         }
         for (int parameter = 0; parameter < 9; parameter++) {
             for (int level : new int[] {0, 1, 999, 1000}) {
-                EDGES.fine(desk, "palette 3 = " + PARAMETERS[parameter] + " " + level + ";");
+                EDGES.fine(desk, "palette 3 = " + Edges.PARAMETERS[parameter] + " " + level + ";");
                 EDGES.same("with " + level, desk.level(having[parameter], parameter), level);
             }
             int other = (parameter + 1) % 9;
-            EDGES.same("of another parameter", desk.level(having[other], other), HOME[other]);
+            EDGES.same("of another parameter", desk.level(having[other], other), Edges.HOME[other]);
         }
         EDGES.sentence("A palette that changes is changed for all that goes by it");
         EDGES.fine(desk, "clear; palette 3 = dim 100; 1 @ from 3; record 1; clear;");
@@ -371,8 +368,11 @@ public final class EdgesOfStatementsTest {
 
     private static void whateverItWas() {
         EDGES.sentence("group, palette, sub none, wave: it is what is told, whatever it was");
-        LightDesk desk = Checks.desk(RIG, "group 1 = all; group 1 = 3; palette 1 = dim 5 red 6; palette 1 = red 0; sub 1 with all @ 5; sub 2 with 1 @ 5; sub 1 masters; sub 1 none;",
-            "wave 1 = saw dim size 1 rate 2 spread 3 on all; wave 1 = peak roll size 0 rate 0 spread 0 on 5; wave 2 = saw dim size 1 rate 2 spread 3 on 1; wave 2 = none;");
+        LightDesk desk = Checks.desk(RIG,
+            "group 1 = all; group 1 = 3; palette 1 = dim 5 red 6; palette 1 = red 0; sub 1 with all @ 5; sub 2 with 1 @ 5; sub 1 masters; "
+            + "sub 1 none;",
+            "wave 1 = saw dim size 1 rate 2 spread 3 on all; wave 1 = peak roll size 0 rate 0 spread 0 on 5; "
+            + "wave 2 = saw dim size 1 rate 2 spread 3 on 1; wave 2 = none;");
         EDGES.same("group", Edges.units(desk, 1), "3");
         EDGES.same("palette", desk.palette(1, 0), -1);
         EDGES.same("a level of 0 is one", desk.palette(1, 1), 0);

@@ -29,7 +29,8 @@ public final class GrammarTest {
         {"times", "{ ( \"up\" | \"down\" | \"move\" | \"delay\" | \"follow\" | \"link\" ) N | \"stay\" | \"loose\" }"},
         {"set", "term { ( \"+\" | \"-\" ) term }"},
         {"term", "\"all\" | \"group\" N | N [ \"thru\" N ]"},
-        {"what", "( parameter | \"@\" ) ( N [ \"thru\" N ] | \"full\" | \"from\" N | ( \"+\" | \"-\" ) N ) | \"palette\" N | \"home\" | \"release\""}};
+        {"what", "( parameter | \"@\" ) ( N [ \"thru\" N ] | \"full\" | \"from\" N | ( \"+\" | \"-\" ) N ) | \"palette\" N | \"home\" | "
+            + "\"release\""}};
 
     /** Together these take every way through the grammar, and every { } no time, once and again. */
     private static final String[] STATEMENTS = {
@@ -40,13 +41,15 @@ public final class GrammarTest {
         "group 1 = 2 ;", "group 1 = group 2 + 3 thru 4 - all ;", "palette 1 = none ;", "palette 1 = dim 5 ;", "palette 1 = roll 5 red 6 iris 7 ;",
         "sub 1 none ;", "sub 1 adds ;", "sub 1 masters ;", "sub 1 with 2 @ 5 ;", "sub 1 with all - group 2 + 3 thru 4 @ 5 ;", "wave 1 = none ;",
         "wave 1 = saw dim size 5 rate 6 spread 7 on 8 ;", "wave 1 = step roll size 5 rate 6 spread 7 on all - 5 ;",
-        "wave 1 = peak pan size 5 rate 6 spread 7 on group 8 + 9 thru 1 ;", "cue 1 ;", "cue 1 up 2 ;", "cue 1 down 2 move 3 delay 4 follow 5 link 6 up 7 ;",
+        "wave 1 = peak pan size 5 rate 6 spread 7 on group 8 + 9 thru 1 ;", "cue 1 ;", "cue 1 up 2 ;",
+        "cue 1 down 2 move 3 delay 4 follow 5 link 6 up 7 ;",
         "cue 1 stay loose ;", "cue 1 link 5 stay delay 6 ;", "record 1 ;", "record 1 only ;", "record 1 only up 5 stay ;", "record 1 loose move 5 ;",
         "update ;", "delete 1 ;", "copy 1 to 2 ;", "block 1 ;", "unblock 1 ;", "blind 1 ;", "live ;", "clear ;", "sneak 5 ;", "park 1 @ 2 ;",
         "unpark 1 ;", "unpark all ;", "event 1 = none ;", "event 1 = 5 cue 6 ;"};
 
     /** Tokens of other kinds, and bytes and words that begin none or are too long. */
-    private static final String[] OTHERS = {"5", "0", "9999", "00000", "10000", "abcdefghi", "abcdefghij", "a", "dims", "thr", "#", ".", ",", "A", "\t", "\"", "("};
+    private static final String[] OTHERS = {"5", "0", "9999", "00000", "10000", "abcdefghi", "abcdefghij", "a", "dims", "thr", "#", ".", ",", "A",
+        "\t", "\"", "("};
 
     /** One place in the grammar: where each token leads, and where one may be without a token. */
     private static final class Place {
