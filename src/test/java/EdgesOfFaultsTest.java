@@ -10,6 +10,7 @@ public final class EdgesOfFaultsTest {
         ends();
         tokensOfAStatement();
         tokensOfEachStatement();
+        lastOfManyNumbers();
         repeatedWords();
         groupOrSet();
         nothingThere();
@@ -133,6 +134,22 @@ public final class EdgesOfFaultsTest {
         EDGES.fine(desk, "wave 1 = saw dim size 1 rate 1 spread 1 on 2" + " + 2".repeat(53) + ";");
         EDGES.faulty(desk, "wave 1 = saw dim size 1 rate 1 spread 1 on 2 thru 1" + " + 2".repeat(52) + " + ^2;", 1);
         EDGES.fine(desk, "palette 1 = dim 1 red 2 green 3 blue 4 pan 5 tilt 6 wheel 7 iris 8 roll 9;");
+    }
+
+    /** The last numbers of statements that are as long as they can be. */
+    private static void lastOfManyNumbers() {
+        EDGES.sentence("Others are met from the left: up to the last number of 120 tokens");
+        LightDesk desk = Checks.desk("patch 1 lamp at 1; patch 2 lamp at 2;");
+        EDGES.fine(desk, "1" + " @ 5".repeat(58) + " @ 1000;");
+        EDGES.same("the last one counts", desk.held(1, 0), 1000);
+        EDGES.faulty(desk, "1" + " @ 5".repeat(58) + " @ ^1001;", 3);
+        EDGES.faulty(desk, "1" + " palette 5".repeat(58) + " palette ^13;", 3);
+        EDGES.faulty(desk, "unpatch 1" + " + 2".repeat(57) + " + ^3;", 2);
+        EDGES.faulty(desk, "unpatch 1" + " + 2".repeat(57) + " + ^41;", 3);
+        EDGES.faulty(desk, "unpatch ^1" + " - 2 + 2".repeat(28) + " - 2 - 1;", 6);
+        EDGES.faulty(desk, "sub 1 with 1" + " + 2".repeat(56) + " @ ^1001;", 3);
+        EDGES.fine(desk, "group 1 = 1" + " + 2 - 2".repeat(28) + " + 2;");
+        EDGES.same("the last term counts", Edges.units(desk, 1), "1 2");
     }
 
     private static void repeatedWords() {

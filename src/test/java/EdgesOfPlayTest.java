@@ -41,6 +41,17 @@ public final class EdgesOfPlayTest {
         for (int parameter = 0; parameter < 9; parameter++) {
             EDGES.same("CUE LEVEL " + parameter, desk.level(40, parameter), home[parameter]);
         }
+        EDGES.sentence("a GOAL, HOME at first, seen by the very text that patches");
+        LightDesk fresh = Checks.desk("patch 1 spot at 1; patch 2 tint at 20; 1 pan + 5 tilt - 5 iris - 5 wheel + 5 @ + 5; 2 red - 1 green - 2 blue - 3;");
+        int[] due = {5, 999, 998, 997, 505, 495, 5, 995};
+        for (int parameter = 0; parameter < due.length; parameter++) {
+            EDGES.same("its CUE LEVEL and so much " + parameter, fresh.held(parameter > 0 && parameter < 4 ? 2 : 1, parameter), due[parameter]);
+        }
+        LightDesk sneaked = Checks.desk("patch 1 spot at 1; 1 pan 0 iris 0; sneak 10;");
+        sneaked.advance(5);
+        EDGES.same("what sneaks fades to HOME", sneaked.level(1, 4), 250);
+        EDGES.same("what sneaks fades to HOME", sneaked.level(1, 7), 500);
+        EDGES.sentence("CURRENT is none at first");
         desk.advance(5);
         EDGES.same("none follows, as there is none", desk.state(2), 0);
         EDGES.fine(desk, "cue 1 follow 0; cue 2 follow 5;");
