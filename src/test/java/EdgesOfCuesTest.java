@@ -175,6 +175,12 @@ public final class EdgesOfCuesTest {
         EDGES.fine(desk, "1 @ 7; 3 pan 9; update;");
         EDGES.same("changed there", desk.change(10, 1, 0), 7);
         EDGES.same("not ahead of it", desk.change(9, 3, 4), 8);
+        EDGES.sentence("update, with BLIND: the programmer's values; BLIND stays");
+        EDGES.fine(desk, "1 @ 8; blind 1; 2 @ 9; update;");
+        EDGES.same("changed there", desk.change(10, 1, 0), 8);
+        EDGES.same("BLIND's own", desk.change(1, 2, 0), 9);
+        EDGES.same("BLIND", desk.state(6), 1);
+        EDGES.fine(desk, "live;");
         EDGES.sentence("update: CURRENT's cue is gone");
         EDGES.fine(desk, "delete 10; 40 @ 4; update;");
         EDGES.same("the greatest not above CURRENT", desk.change(9, 40, 0), 4);
@@ -398,9 +404,31 @@ public final class EdgesOfCuesTest {
         }
     }
 
+    /** Nothing of what no text tells is as it was at first, behind this. */
+    private static void playAway(LightDesk desk) {
+        desk.jump(5);
+        desk.advance(20);
+        desk.jump(9);
+        desk.advance(3);
+        desk.hold(true);
+        desk.advance(4);
+        desk.grand(900);
+        for (int s = 1; s <= 8; s++) {
+            desk.fader(s, 100 * s);
+            desk.bump(s, s % 2 == 0);
+        }
+        for (int w = 1; w <= 4; w++) {
+            desk.run(w, true);
+        }
+    }
+
     private static void leavingOthers() {
         EDGES.sentence("a statement changes what it tells of, and nothing else");
-        LightDesk desk = Checks.desk(RIG, "all @ 100 thru 900; 2 red 7; record 5 up 1; 1 @ 100; record 9; clear; cue 12 link 5; blind 9; 3 pan 8;");
+        LightDesk desk = Checks.desk(RIG, "all @ 100 thru 900; 2 red 7; record 5 up 1; 1 @ 100; record 9 move 50; clear; cue 12 link 5; blind 9; 3 pan 8;",
+            "group 1 = 2; palette 1 = red 5; sub 1 with 1 @ 7; sub 2 masters; wave 1 = saw dim size 9 rate 9 spread 9 on 1; park 7 @ 7; "
+            + "event 1 = 700 cue 9;");
+        playAway(desk);
+        EDGES.same("one fades", desk.state(8), 1);
         String before = shown(desk);
         String[] thereAndBack = {"copy 5 to 6; delete 6;", "copy 9 to 1; delete 1;", "copy 12 to 30; delete 30;", "cue 30 up 7; delete 30;",
             "park 5 @ 5; unpark 5;", "event 3 = 5 cue 5; event 3 = none;",
@@ -408,7 +436,7 @@ public final class EdgesOfCuesTest {
             "wave 3 = saw dim size 1 rate 1 spread 1 on all; wave 3 = none;",
             "live; blind 9;", "blind 5; blind 9;", "patch 4 lamp at 100; unpatch 4;", "live; 1 @ 5; clear; blind 9;",
             "live; 1 @ 5; 1 release; blind 9;",
-            "live; 1 home; sneak 0; blind 9;", "park 9 @ 9; unpark all;", "cue 5 up 2; cue 5 up 1;",
+            "live; 1 home; sneak 0; blind 9;", "unpark all; park 7 @ 7;", "cue 5 up 2; cue 5 up 1;",
             "unblock 5; block 5;"};
         for (String text : thereAndBack) {
             EDGES.fine(desk, text);

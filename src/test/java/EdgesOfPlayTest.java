@@ -271,6 +271,13 @@ public final class EdgesOfPlayTest {
         desk.undo();
         desk.undo();
         EDGES.same("undo leaves it", desk.state(2), 9);
+        EDGES.sentence("if there are this cue, its LINK: the FOLLOW and the LINK of a cue ahead of one that is gone are not CURRENT's");
+        LightDesk gone = Checks.desk("cue 1 follow 3 link 9; cue 5; cue 7; cue 9;");
+        gone.jump(5);
+        EDGES.fine(gone, "delete 5;");
+        gone.advance(3);
+        EDGES.same("not followed", gone.state(2), 5);
+        EDGES.same("the least above", gone.go(), 7);
     }
 
     private static void nextAndLink() {

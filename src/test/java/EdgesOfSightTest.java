@@ -273,6 +273,21 @@ public final class EdgesOfSightTest {
         desk.bump(8, false);
         EDGES.fine(desk, "sub 1 none; sub 8 adds;");
         EDGES.same("none has it", desk.shown(1), 999);
+        EDGES.sentence("by numbers, each CUT of its own");
+        LightDesk low = Checks.desk("patch 1 lamp at 1; 1 @ 3; sub 1 with 1 @ 1; sub 2 with 1 @ 1; sub 1 masters; sub 2 masters;");
+        low.fader(1, 500);
+        low.fader(2, 999);
+        EDGES.same("3, 1, 0", low.shown(1), 0);
+        low.fader(1, 999);
+        low.fader(2, 500);
+        EDGES.same("3, 2, 1", low.shown(1), 1);
+        EDGES.sentence("d is CUT(LEVEL of dim * GRAND, 1000), ahead of the subs");
+        low.bump(2, true);
+        low.grand(500);
+        EDGES.same("3, 1, 0", low.shown(1), 0);
+        low.fader(1, 500);
+        low.grand(999);
+        EDGES.same("3, 2, 1", low.shown(1), 1);
     }
 
     private static void sawAndItsTurn() {
